@@ -1,3 +1,5 @@
+import java.util.function.IntSupplier;
+
 /** Counts what is not as due, and tells it. */
 final class Check {
     private int wrong = 0;
@@ -29,6 +31,15 @@ final class Check {
         String before = View.of(account);
         due(what + " throws", thrownBy(call), want.getSimpleName());
         due("what the account answers after " + what, View.of(account), before);
+    }
+
+    /** What a call answers, or the name of what it throws. */
+    static String answer(IntSupplier call) {
+        try {
+            return "" + call.getAsInt();
+        } catch (RuntimeException e) {
+            return e.getClass().getSimpleName();
+        }
     }
 
     static String thrownBy(Runnable call) {
