@@ -23,6 +23,7 @@ public final class BoundsTest {
     private static final Twins TWINS = new Twins(CHECK);
 
     public static void main(String[] args) {
+        allOf512Calls();
         nothingAtFirst();
         noBreak();
         noOrder();
@@ -74,10 +75,10 @@ public final class BoundsTest {
 
     private static void outOfRange(
             String what,
-            Supplier<SpotAccount> scene,
+            Supplier<Account> scene,
             int lowest,
             int highest,
-            ObjIntConsumer<SpotAccount> call) {
+            ObjIntConsumer<Account> call) {
         for (int value : outside(lowest, highest)) {
             TWINS.refused(what + " of " + value, scene, RANGE, x -> call.accept(x, value));
         }
@@ -86,15 +87,15 @@ public final class BoundsTest {
     /** Numbers below count are there; those from it on, and those below 0, are not. */
     private static void noSuch(
             String what,
-            Supplier<SpotAccount> scene,
+            Supplier<Account> scene,
             int count,
-            ObjIntConsumer<SpotAccount> call) {
+            ObjIntConsumer<Account> call) {
         for (int number : outside(0, count - 1)) {
             TWINS.refused(what + " of " + number, scene, NO_SUCH, x -> call.accept(x, number));
         }
     }
 
-    private static void noSuchBreak(Supplier<SpotAccount> scene, int count, int order, int spot) {
+    private static void noSuchBreak(Supplier<Account> scene, int count, int order, int spot) {
         noSuch("rate", scene, count, (x, at) -> x.rate(at, 0, 5));
         noSuch("air", scene, count, (x, at) -> x.air(at));
         noSuch("isAired", scene, count, (x, at) -> x.isAired(at));
@@ -106,7 +107,7 @@ public final class BoundsTest {
         noSuch("move, break", scene, count, (x, at) -> x.move(spot, at));
     }
 
-    private static void noSuchOrder(Supplier<SpotAccount> scene, int count, int at) {
+    private static void noSuchOrder(Supplier<Account> scene, int count, int at) {
         noSuch("close", scene, count, (x, order) -> x.close(order));
         noSuch("whyNot, order", scene, count, (x, order) -> x.whyNot(order, at));
         noSuch("place, order", scene, count, (x, order) -> x.place(order, at));
@@ -118,7 +119,7 @@ public final class BoundsTest {
         noSuch("bill", scene, count, (x, order) -> x.bill(order));
     }
 
-    private static void noSuchSpot(Supplier<SpotAccount> scene, int count, int at) {
+    private static void noSuchSpot(Supplier<Account> scene, int count, int at) {
         noSuch("move, spot", scene, count, (x, spot) -> x.move(spot, at));
         noSuch("miss", scene, count, (x, spot) -> x.miss(spot));
         noSuch("drop", scene, count, (x, spot) -> x.drop(spot));
@@ -126,11 +127,32 @@ public final class BoundsTest {
         noSuch("breakOf", scene, count, (x, spot) -> x.breakOf(spot));
     }
 
+    // ---- as many calls as there can be
+
+    private static void allOf512Calls() {
+        CHECK.begin("What it is: An object is used for at most 512 calls [the last is answered]");
+        Account rated = Scenes.breaks(1, 60);
+        for (int call = 1; call < Account.MOST_CALLS; call++) {
+            CHECK.due("rate, the " + (call + 1) + "th call", rated.rate(0, 1, call), call - 1);
+        }
+        Account refusing = new Account();
+        for (int call = 0; call < Account.MOST_CALLS - 1; call++) {
+            CHECK.due("addBreak(14)", Check.answer(() -> refusing.addBreak(14)),
+                    "IllegalArgumentException");
+        }
+        CHECK.due("addBreak(15), the 512th call", refusing.addBreak(15), 0);
+        Account filled = Scenes.spots(149);
+        for (int call = filled.calls(); call < Account.MOST_CALLS - 1; call++) {
+            CHECK.due("whyNot", filled.whyNot(Scenes.FULL_OPEN_ORDER, call % 24), 0);
+        }
+        CHECK.due("place, the 512th call", filled.place(Scenes.FULL_OPEN_ORDER, 23), 149);
+    }
+
     // ---- nothing there
 
     private static void nothingAtFirst() {
         CHECK.begin("Promise 1: Creates an account without breaks and orders.");
-        SpotAccount account = new SpotAccount();
+        Account account = new Account();
         CHECK.due("breaks()", account.breaks(), 0);
         CHECK.due("orders()", account.orders(), 0);
         CHECK.due("spots()", account.spots(), 0);
@@ -138,16 +160,16 @@ public final class BoundsTest {
         for (int advertiser = 0; advertiser < 10; advertiser++) {
             CHECK.due("billTo", account.billTo(advertiser), 0);
         }
-        noSuchBreak(SpotAccount::new, 0, 0, 0);
-        noSuchOrder(SpotAccount::new, 0, 0);
-        noSuchSpot(SpotAccount::new, 0, 0);
+        noSuchBreak(Account::new, 0, 0, 0);
+        noSuchOrder(Account::new, 0, 0);
+        noSuchSpot(Account::new, 0, 0);
     }
 
     private static void noBreak() {
         CHECK.begin("Terms: IndexOutOfBoundsException: there is no such break [no break at all]");
-        Supplier<SpotAccount> scene = () -> Scenes.orders(20);
+        Supplier<Account> scene = () -> Scenes.orders(20);
         noSuchBreak(scene, 0, 19, 0);
-        SpotAccount account = scene.get();
+        Account account = scene.get();
         CHECK.due("fill without a break", account.fill(19, 24), 0);
         CHECK.due("close without a break", account.close(19), 19);
         CHECK.due("rest(19)", account.rest(19), 19);
@@ -156,9 +178,9 @@ public final class BoundsTest {
 
     private static void noOrder() {
         CHECK.begin("Terms: IndexOutOfBoundsException: there is no such .. order [none at all]");
-        Supplier<SpotAccount> scene = () -> Scenes.rated(24, 600, 50);
+        Supplier<Account> scene = () -> Scenes.rated(24, 600, 50);
         noSuchOrder(scene, 0, 23);
-        SpotAccount account = scene.get();
+        Account account = scene.get();
         CHECK.due("air without a spot", account.air(23), 0);
         CHECK.due("mostOwed()", account.mostOwed(), -1);
         CHECK.due("billTo(0)", account.billTo(0), 0);
@@ -166,9 +188,9 @@ public final class BoundsTest {
 
     private static void noSpot() {
         CHECK.begin("Terms: IndexOutOfBoundsException: there is no such .. spot [none at all]");
-        Supplier<SpotAccount> scene = () -> Scenes.spots(0);
+        Supplier<Account> scene = () -> Scenes.spots(0);
         noSuchSpot(scene, 0, 0);
-        SpotAccount account = scene.get();
+        Account account = scene.get();
         CHECK.due("room without a spot", account.room(0), 600);
         CHECK.due("delivered without a spot", account.delivered(8), 0);
         CHECK.due("bill without a spot", account.bill(8), 0);
@@ -180,7 +202,7 @@ public final class BoundsTest {
 
     private static void atMost24Breaks() {
         CHECK.begin("Terms: at most 24 breaks, numbered from 0 in the order in which .. added");
-        SpotAccount account = new SpotAccount();
+        Account account = new Account();
         for (int at = 0; at < 24; at++) {
             CHECK.due("addBreak", account.addBreak(60 + at), at);
             CHECK.due("breaks()", account.breaks(), at + 1);
@@ -196,8 +218,8 @@ public final class BoundsTest {
         CHECK.due("the 24th", Scenes.breaks(23, 15).addBreak(600), 23);
     }
 
-    private static SpotAccount airedBreaks() {
-        SpotAccount account = Scenes.breaks(24, 60);
+    private static Account airedBreaks() {
+        Account account = Scenes.breaks(24, 60);
         for (int at = 0; at < 24; at++) {
             account.air(at);
         }
@@ -206,7 +228,7 @@ public final class BoundsTest {
 
     private static void atMost20Orders() {
         CHECK.begin("Terms: There are at most 20 orders, numbered from 0.");
-        SpotAccount account = new SpotAccount();
+        Account account = new Account();
         for (int order = 0; order < 20; order++) {
             CHECK.due("addOrder", Scenes.order(account, 0, 0, 100 + order), order);
             CHECK.due("orders()", account.orders(), order + 1);
@@ -215,7 +237,7 @@ public final class BoundsTest {
             CHECK.due("close", account.close(order), 100 + order);
         }
         CHECK.begin("Promise 9: Throws IllegalStateException if there are 20 orders");
-        Supplier<SpotAccount> full = () -> Scenes.orders(20);
+        Supplier<Account> full = () -> Scenes.orders(20);
         TWINS.refused("one more", full, STATE, x -> Scenes.order(x, 9, 7, 5));
         TWINS.refused("one more", full, STATE,
                 x -> x.addOrder(9, 7, 2, 60, 1000000, 1000000, 100000));
@@ -224,8 +246,8 @@ public final class BoundsTest {
         CHECK.due("the 20th", Scenes.order(Scenes.orders(19), 0, 0, 0), 19);
     }
 
-    private static SpotAccount closedOrders() {
-        SpotAccount account = Scenes.orders(20);
+    private static Account closedOrders() {
+        Account account = Scenes.orders(20);
         for (int order = 0; order < 20; order++) {
             account.close(order);
         }
@@ -235,7 +257,7 @@ public final class BoundsTest {
     private static void atMost150SpotsByPlace() {
         CHECK.begin("Promise 13: Throws IllegalStateException if .. there are 150 spots");
         int order = Scenes.FULL_OPEN_ORDER;
-        SpotAccount account = Scenes.spots(149);
+        Account account = Scenes.spots(149);
         CHECK.due("spots()", account.spots(), 149);
         CHECK.due("the 150th", account.place(order, 0), 149);
         CHECK.due("spots()", account.spots(), 150);
@@ -248,7 +270,7 @@ public final class BoundsTest {
     private static void atMost150SpotsByGive() {
         CHECK.begin("Promise 14: Throws IllegalStateException if .. there are 150 spots");
         int order = Scenes.FULL_CLOSED_ORDER;
-        SpotAccount account = Scenes.spots(149);
+        Account account = Scenes.spots(149);
         CHECK.due("the 150th", account.give(order, 23), 149);
         CHECK.due("spots()", account.spots(), 150);
         CHECK.due("breakOf(149)", account.breakOf(149), 23);
@@ -261,7 +283,7 @@ public final class BoundsTest {
         CHECK.begin("Promise 15: as long as .. there are fewer than 150 spots");
         int order = Scenes.FULL_OPEN_ORDER;
         for (int free = 0; free <= 3; free++) {
-            SpotAccount account = Scenes.spots(150 - free);
+            Account account = Scenes.spots(150 - free);
             CHECK.due("fill with " + free + " left", account.fill(order, 24), free);
             CHECK.due("spots()", account.spots(), 150);
             CHECK.due("fill again", account.fill(order, 1), 0);
@@ -272,8 +294,8 @@ public final class BoundsTest {
 
     private static void atMost150SpotsInWhicheverState() {
         CHECK.begin("Promise 19: Returns how many spots there are, in whichever state.");
-        Supplier<SpotAccount> scene = BoundsTest::fullInEachState;
-        SpotAccount account = scene.get();
+        Supplier<Account> scene = BoundsTest::fullInEachState;
+        Account account = scene.get();
         CHECK.due("spots()", account.spots(), 150);
         CHECK.due("stateOf(0)", account.stateOf(0), SpotAccount.AIRED);
         CHECK.due("stateOf(1)", account.stateOf(1), SpotAccount.MISSED);
@@ -286,8 +308,8 @@ public final class BoundsTest {
         CHECK.due("breakOf(149)", account.breakOf(149), 0);
     }
 
-    private static SpotAccount fullInEachState() {
-        SpotAccount account = Scenes.spots(150);
+    private static Account fullInEachState() {
+        Account account = Scenes.spots(150);
         account.air(23);
         account.miss(1);
         account.close(1);
@@ -299,15 +321,15 @@ public final class BoundsTest {
     private static void secondsOfBreak() {
         CHECK.begin("Promise 2: seconds: 15 to 600");
         for (int seconds = 15; seconds <= 600; seconds++) {
-            SpotAccount account = new SpotAccount();
+            Account account = new Account();
             CHECK.due("addBreak(" + seconds + ")", account.addBreak(seconds), 0);
             CHECK.due("room(0)", account.room(0), seconds);
         }
-        outOfRange("addBreak", SpotAccount::new, 15, 600, (x, value) -> x.addBreak(value));
+        outOfRange("addBreak", Account::new, 15, 600, (x, value) -> x.addBreak(value));
         outOfRange("addBreak", Scenes::lively, 15, 600, (x, value) -> x.addBreak(value));
         for (int seconds = -15; seconds < 15; seconds++) {
             int few = seconds;
-            TWINS.refused("addBreak(" + few + ")", SpotAccount::new, RANGE, x -> x.addBreak(few));
+            TWINS.refused("addBreak(" + few + ")", Account::new, RANGE, x -> x.addBreak(few));
         }
     }
 
@@ -315,7 +337,7 @@ public final class BoundsTest {
         CHECK.begin("Promise 3: group: 0 to 2");
         for (int group = 0; group < 3; group++) {
             for (int at : new int[] {0, 1, 23}) {
-                SpotAccount account = Scenes.breaks(24, 60);
+                Account account = Scenes.breaks(24, 60);
                 CHECK.due("rate", account.rate(at, group, 7), 0);
                 for (int other = 0; other < 72; other++) {
                     boolean same = other == 3 * at + group;
@@ -331,7 +353,7 @@ public final class BoundsTest {
     private static void ratingOfRate() {
         CHECK.begin("Promise 3: rating: 0 to 100000 .. Returns the rating before.");
         int[] ratings = {0, 1, 99999, 100000, 0, 100000, 50000, 32768, 65536, 127, 128, 255};
-        SpotAccount account = Scenes.breaks(1, 60);
+        Account account = Scenes.breaks(1, 60);
         int before = 0;
         for (int rating : ratings) {
             CHECK.due("rate(0, 2, " + rating + ")", account.rate(0, 2, rating), before);
@@ -345,7 +367,7 @@ public final class BoundsTest {
 
     private static void groupOfRating() {
         CHECK.begin("Promise 8: group: 0 to 2");
-        SpotAccount account = Scenes.breaks(24, 60);
+        Account account = Scenes.breaks(24, 60);
         for (int cell = 0; cell < 72; cell++) {
             CHECK.due("rating, 0 at first", account.rating(cell / 3, cell % 3), 0);
         }
@@ -357,7 +379,7 @@ public final class BoundsTest {
     private static void advertiserOfOrder() {
         CHECK.begin("Promise 9: advertiser: 0 to 9");
         for (int advertiser = 0; advertiser < 10; advertiser++) {
-            SpotAccount account = Scenes.rated(1, 60, 5);
+            Account account = Scenes.rated(1, 60, 5);
             CHECK.due("addOrder", Scenes.order(account, advertiser, 0, 10), 0);
             account.place(0, 0);
             account.air(0);
@@ -371,7 +393,7 @@ public final class BoundsTest {
     private static void categoryOfOrder() {
         CHECK.begin("Promise 9: category: 0 to 7");
         for (int category = 0; category < 8; category++) {
-            SpotAccount account = Scenes.rated(1, 60, 5);
+            Account account = Scenes.rated(1, 60, 5);
             CHECK.due("addOrder", Scenes.order(account, 0, category, 10), 0);
             account.place(0, 0);
             for (int other = 0; other < 8; other++) {
@@ -385,7 +407,7 @@ public final class BoundsTest {
     private static void groupOfOrder() {
         CHECK.begin("Promise 9: group: 0 to 2");
         for (int group = 0; group < 3; group++) {
-            SpotAccount account = Scenes.breaks(1, 60);
+            Account account = Scenes.breaks(1, 60);
             for (int rated = 0; rated < 3; rated++) {
                 account.rate(0, rated, 11 + rated);
             }
@@ -400,7 +422,7 @@ public final class BoundsTest {
     private static void secondsOfOrder() {
         CHECK.begin("Promise 9: seconds: 15, 30 or 60");
         for (int seconds : new int[] {15, 30, 60}) {
-            SpotAccount account = Scenes.breaks(1, 60);
+            Account account = Scenes.breaks(1, 60);
             CHECK.due("addOrder", account.addOrder(0, 0, 0, seconds, 1, 100, 0), 0);
             account.place(0, 0);
             CHECK.due("room(0)", account.room(0), 60 - seconds);
@@ -409,7 +431,7 @@ public final class BoundsTest {
         for (int seconds = -60; seconds <= 130; seconds++) {
             if (seconds != 15 && seconds != 30 && seconds != 60) {
                 int[] all = {1, 1, 1, seconds, 1, 1, 1};
-                TWINS.refused("seconds of " + seconds, SpotAccount::new, RANGE, x -> add(x, all));
+                TWINS.refused("seconds of " + seconds, Account::new, RANGE, x -> add(x, all));
             }
         }
     }
@@ -417,7 +439,7 @@ public final class BoundsTest {
     private static void priceOfOrder() {
         CHECK.begin("Promise 9: price: 0 to 1000000");
         for (int price : new int[] {0, 1, 32768, 65536, 999999, 1000000}) {
-            SpotAccount account = Scenes.breaks(2, 60);
+            Account account = Scenes.breaks(2, 60);
             CHECK.due("addOrder", account.addOrder(0, 0, 0, 15, price, 100, 0), 0);
             account.place(0, 0);
             account.air(0);
@@ -432,7 +454,7 @@ public final class BoundsTest {
     private static void promiseOfOrder() {
         CHECK.begin("Promise 9: promise: 0 to 1000000");
         for (int promise : new int[] {0, 1, 32768, 65536, 999999, 1000000}) {
-            SpotAccount account = new SpotAccount();
+            Account account = new Account();
             CHECK.due("addOrder", account.addOrder(0, 0, 0, 15, 1, promise, 0), 0);
             CHECK.due("close(0)", account.close(0), promise);
             CHECK.due("mostOwed()", account.mostOwed(), promise == 0 ? -1 : 0);
@@ -443,7 +465,7 @@ public final class BoundsTest {
     private static void floorOfOrder() {
         CHECK.begin("Promise 9: floor: 0 to 100000");
         for (int floor : new int[] {0, 1, 32768, 65536, 99999, 100000}) {
-            SpotAccount account = Scenes.rated(1, 60, floor);
+            Account account = Scenes.rated(1, 60, floor);
             CHECK.due("addOrder", account.addOrder(0, 0, 0, 15, 1, 100, floor), 0);
             CHECK.due("whyNot at the floor", account.whyNot(0, 0), 0);
             if (floor > 0) {
@@ -459,19 +481,19 @@ public final class BoundsTest {
             int[] all = {1, 1, 1, 30, 1, 1, 1};
             all[place] = value;
             String what = "addOrder, argument " + place + " of " + value;
-            TWINS.refused(what, SpotAccount::new, RANGE, x -> add(x, all));
+            TWINS.refused(what, Account::new, RANGE, x -> add(x, all));
             TWINS.refused(what, Scenes::lively, RANGE, x -> add(x, all));
         }
     }
 
-    private static void add(SpotAccount x, int[] a) {
+    private static void add(Account x, int[] a) {
         x.addOrder(a[0], a[1], a[2], a[3], a[4], a[5], a[6]);
     }
 
     private static void mostOfFill() {
         CHECK.begin("Promise 15: most: 1 to 24: how many spots at most");
         for (int most = 1; most <= 24; most++) {
-            SpotAccount account = Scenes.spots(0);
+            Account account = Scenes.spots(0);
             CHECK.due("fill(0, " + most + ")", account.fill(0, most), most);
             CHECK.due("spots()", account.spots(), most);
         }
@@ -485,7 +507,7 @@ public final class BoundsTest {
 
     private static void advertiserOfBillTo() {
         CHECK.begin("Promise 26: advertiser: 0 to 9");
-        SpotAccount account = Scenes.breaks(10, 60);
+        Account account = Scenes.breaks(10, 60);
         for (int advertiser = 0; advertiser < 10; advertiser++) {
             account.addOrder(advertiser, advertiser % 8, 0, 15, 10 + advertiser, 100, 0);
             account.place(advertiser, advertiser);
@@ -494,7 +516,7 @@ public final class BoundsTest {
         for (int advertiser = 0; advertiser < 10; advertiser++) {
             CHECK.due("billTo(" + advertiser + ")", account.billTo(advertiser), 10 + advertiser);
         }
-        outOfRange("billTo", SpotAccount::new, 0, 9, (x, advertiser) -> x.billTo(advertiser));
+        outOfRange("billTo", Account::new, 0, 9, (x, advertiser) -> x.billTo(advertiser));
         outOfRange("billTo", Scenes::lively, 0, 9, (x, advertiser) -> x.billTo(advertiser));
     }
 
@@ -504,7 +526,7 @@ public final class BoundsTest {
         CHECK.begin("Terms: IndexOutOfBoundsException: there is no such break");
         noSuchBreak(Scenes::lively, 8, 0, 1);
         noSuchBreak(() -> Scenes.spots(150), 24, 0, 0);
-        SpotAccount account = Scenes.spots(0);
+        Account account = Scenes.spots(0);
         CHECK.due("rate(23, 0, 9)", account.rate(23, 0, 9), 24);
         CHECK.due("rating(23, 0)", account.rating(23, 0), 9);
         CHECK.due("isAired(23)", account.isAired(23), false);
@@ -522,7 +544,7 @@ public final class BoundsTest {
         CHECK.begin("Terms: IndexOutOfBoundsException: there is no such .. order");
         noSuchOrder(Scenes::lively, 4, 6);
         noSuchOrder(BoundsTest::twentyOrders, 20, 0);
-        SpotAccount account = twentyOrders();
+        Account account = twentyOrders();
         CHECK.due("whyNot(19, 0)", account.whyNot(19, 0), 0);
         CHECK.due("place(19, 0)", account.place(19, 0), 0);
         CHECK.due("fill(19, 24)", account.fill(19, 24), 2);
@@ -537,8 +559,8 @@ public final class BoundsTest {
         CHECK.due("mostOwed()", account.mostOwed(), 19);
     }
 
-    private static SpotAccount twentyOrders() {
-        SpotAccount account = Scenes.rated(3, 60, 5);
+    private static Account twentyOrders() {
+        Account account = Scenes.rated(3, 60, 5);
         for (int order = 0; order < 20; order++) {
             Scenes.order(account, order % 10, order % 8, order);
         }
@@ -549,7 +571,7 @@ public final class BoundsTest {
         CHECK.begin("Terms: IndexOutOfBoundsException: there is no such .. spot");
         noSuchSpot(Scenes::lively, 7, 5);
         noSuchSpot(() -> Scenes.spots(150), 150, 0);
-        SpotAccount account = Scenes.spots(150);
+        Account account = Scenes.spots(150);
         CHECK.due("stateOf(149)", account.stateOf(149), SpotAccount.PLANNED);
         CHECK.due("breakOf(149)", account.breakOf(149), 18);
         CHECK.due("move(149, 0)", account.move(149, 0), 18);
@@ -561,7 +583,7 @@ public final class BoundsTest {
 
     private static void greatestSums() {
         CHECK.begin("Promises 22 to 26: the greatest sums [no wrap-around]");
-        SpotAccount account = Scenes.rated(24, 600, 100000);
+        Account account = Scenes.rated(24, 600, 100000);
         account.addOrder(0, 0, 0, 15, 1000000, 1000000, 100000);
         int placed = 0;
         for (int at = 0; at < 24; at++) {
@@ -585,7 +607,7 @@ public final class BoundsTest {
 
     /** Planned free spots far above what is owed: that comes of ratings that are revised later. */
     private static void greatestRest() {
-        SpotAccount account = Scenes.rated(24, 600, 0);
+        Account account = Scenes.rated(24, 600, 0);
         account.addOrder(0, 0, 0, 15, 1000000, 1, 0);
         account.close(0);
         for (int at = 0; at < 24; at++) {

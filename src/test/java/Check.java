@@ -25,14 +25,6 @@ final class Check {
         }
     }
 
-    /** The call must throw exactly this exception, and must leave the account as it was. */
-    void refused(
-            String what, SpotAccount account, Class<? extends Exception> want, Runnable call) {
-        String before = View.of(account);
-        due(what + " throws", thrownBy(call), want.getSimpleName());
-        due("what the account answers after " + what, View.of(account), before);
-    }
-
     /** What a call answers, or the name of what it throws. */
     static String answer(IntSupplier call) {
         try {

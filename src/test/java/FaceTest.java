@@ -7,7 +7,10 @@ import java.util.Arrays;
 import java.util.Collections;
 import java.util.List;
 
-/** The public face is the document's, with its throws clauses, and nothing more. */
+/**
+ * The public face is the document's, with its throws clauses, and nothing more; and what the rules
+ * of ../shared/LANGUAGE.md say of members, so far as the compiled class shows it.
+ */
 public final class FaceTest {
     private static final String[] METHODS = {
         "int addBreak(int) throws IllegalArgumentException IllegalStateException",
@@ -53,7 +56,39 @@ public final class FaceTest {
         check.due("constructors", constructors(), "[[]]");
         check.due("methods", methods(check), sorted(METHODS));
         check.due("constants", constants(check), sorted(CONSTANTS));
+        privateMethods(check);
+        fields(check);
         check.end();
+    }
+
+    private static void privateMethods(Check check) {
+        check.begin("rules 1 and 11 [names and parameters of private methods]");
+        List<String> face = new ArrayList<>();
+        for (String method : METHODS) {
+            face.add(method.substring(method.indexOf(' ') + 1, method.indexOf('(')));
+        }
+        for (Method method : SpotAccount.class.getDeclaredMethods()) {
+            if (Modifier.isPrivate(method.getModifiers())) {
+                String name = method.getName();
+                check.due(name + " bears a public name", face.contains(name), false);
+                check.due(name + " has 7 at most", method.getParameterCount() <= 7, true);
+                check.due(name + " is written in the file", method.isSynthetic(), false);
+            }
+        }
+    }
+
+    private static void fields(Check check) {
+        check.begin("rules 5 and 11 [static state, how many fields]");
+        int own = 0;
+        for (Field field : SpotAccount.class.getDeclaredFields()) {
+            if (Modifier.isStatic(field.getModifiers())) {
+                check.due(field + " is final", Modifier.isFinal(field.getModifiers()), true);
+                check.due(field + " is a number", field.getType() == int.class, true);
+            } else {
+                own++;
+            }
+        }
+        check.due("at most some twenty fields of an object", own <= 20, true);
     }
 
     private static String constructors() {

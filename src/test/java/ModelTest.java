@@ -7,11 +7,11 @@ import java.util.List;
  */
 public final class ModelTest {
     private static final int WALKS = 4000;
-    private static final int CALLS = 512;
 
     private final Check check;
-    private final SpotAccount account = new SpotAccount();
+    private final Account account = new Account();
     private final Model model = new Model();
+    private final int walk;
     private final Kind kind;
     private long seed;
     private int calls = 0;
@@ -32,9 +32,10 @@ public final class ModelTest {
         boolean dropsOften;
     }
 
-    private ModelTest(Check check, int number) {
+    private ModelTest(Check check, int walk) {
         this.check = check;
-        this.seed = 1000003L * number + 12345;
+        this.walk = walk;
+        this.seed = 1000003L * walk + 12345;
         this.kind = new Kind();
         kind.breaks = below(3) == 0 ? 24 : 1 + below(24);
         kind.orders = 1 + below(20);
@@ -74,9 +75,9 @@ public final class ModelTest {
             check.begin("walk " + number);
             ModelTest walk = new ModelTest(check, number);
             walk.run();
-            greatest[0] = Math.max(greatest[0], walk.account.breaks());
-            greatest[1] = Math.max(greatest[1], walk.account.orders());
-            greatest[2] = Math.max(greatest[2], walk.account.spots());
+            greatest[0] = Math.max(greatest[0], walk.model.breaks.size());
+            greatest[1] = Math.max(greatest[1], walk.model.orders.size());
+            greatest[2] = Math.max(greatest[2], walk.model.spots.size());
         }
         check.begin("all walks");
         check.due("the most breaks reached", greatest[0], 24);
@@ -107,14 +108,75 @@ public final class ModelTest {
         return chance < 4 ? highest : lowest + below(highest - lowest + 1);
     }
 
+    /**
+     * Of five walks one goes on to the last call; the others keep calls for a look at a part of
+     * what there is then: all of it would be more than the calls of one object.
+     */
     private void run() {
+        int looksAt = walk % 5;
+        int kept = new int[] {0, 220, 250, 250, 310}[looksAt];
         // A step makes four calls at most.
-        while (calls <= CALLS - 4) {
+        while (calls <= Account.MOST_CALLS - kept - 4) {
             boolean early = calls < 4 * kind.breaks + kind.orders;
             boolean placing = kind.placesOften && below(4) > 0;
             step(early ? below(2) : placing ? busyStep() : below(40));
         }
-        check.due("view at the end", View.of(account), model.view());
+        switch (looksAt) {
+            case 1 -> lookAtBreaksAndOrders();
+            case 2 -> lookAtReasons(0);
+            case 3 -> lookAtReasons(1);
+            case 4 -> lookAtSpots();
+            default -> fillUp();
+        }
+    }
+
+    private void fillUp() {
+        while (calls < Account.MOST_CALLS) {
+            same("mostOwed", account::mostOwed, "" + model.mostOwed());
+        }
+    }
+
+    private void lookAtBreaksAndOrders() {
+        for (int number = 0; number < model.breaks.size(); number++) {
+            int at = number;
+            same("isAired", () -> flag(account.isAired(at)), model.isAired(at));
+            same("room", () -> account.room(at), model.room(at));
+            for (int rated = 0; rated < 3; rated++) {
+                int group = rated;
+                same("rating", () -> account.rating(at, group), model.rating(at, group));
+            }
+        }
+        for (int number = 0; number < model.orders.size(); number++) {
+            int order = number;
+            same("delivered", () -> account.delivered(order), model.delivered(order));
+            same("owed", () -> account.owed(order), model.owed(order));
+            same("rest", () -> account.rest(order), model.rest(order));
+            same("bill", () -> account.bill(order), model.bill(order));
+        }
+        for (int number = 0; number < 10; number++) {
+            int advertiser = number;
+            same("billTo", () -> account.billTo(advertiser), model.billTo(advertiser));
+        }
+        same("mostOwed", account::mostOwed, "" + model.mostOwed());
+    }
+
+    private void lookAtReasons(int first) {
+        for (int number = first; number < model.orders.size(); number += 2) {
+            int order = number;
+            for (int other = 0; other < model.breaks.size(); other++) {
+                int at = other;
+                same("whyNot", () -> account.whyNot(order, at), model.whyNot(order, at));
+            }
+        }
+    }
+
+    private void lookAtSpots() {
+        for (int number = 0; number < model.spots.size(); number++) {
+            int spot = number;
+            same("stateOf", () -> account.stateOf(spot), model.stateOf(spot));
+            same("breakOf", () -> account.breakOf(spot), model.breakOf(spot));
+        }
+        counts();
     }
 
     /** To place, give, fill, move, and now and then to drop. */
@@ -123,9 +185,9 @@ public final class ModelTest {
     }
 
     private void step(int which) {
-        int at = pick(account.breaks());
-        int order = pick(account.orders());
-        int spot = below(3) == 0 ? pick(account.spots()) : lateSpot();
+        int at = pick(model.breaks.size());
+        int order = pick(model.orders.size());
+        int spot = below(3) == 0 ? pick(model.spots.size()) : lateSpot();
         switch (which) {
             case 0 -> addBreak();
             case 1 -> addOrder();
@@ -156,7 +218,7 @@ public final class ModelTest {
 
     /** The newest spots are the ones that are planned yet. */
     private int lateSpot() {
-        int count = account.spots();
+        int count = model.spots.size();
         return count < 8 ? pick(count) : count - 1 - below(8);
     }
 
@@ -190,13 +252,13 @@ public final class ModelTest {
 
     private void addBreak() {
         int seconds = below(40) == 0 ? range(15, 600) : range(15, kind.longest);
-        if (account.breaks() >= kind.breaks && below(4) > 0) {
+        if (model.breaks.size() >= kind.breaks && below(4) > 0) {
             counts();
             return;
         }
         same("addBreak", () -> account.addBreak(seconds), model.addBreak(seconds));
         for (int group = 0; group < 3; group++) {
-            rate(account.breaks() - 1, group);
+            rate(model.breaks.size() - 1, group);
         }
     }
 
@@ -206,7 +268,7 @@ public final class ModelTest {
             below(50) == 0 ? below(70) : 15 << below(3), range(0, 1000000),
             range(0, kind.highestPromise), range(0, kind.highestFloor),
         };
-        if (account.orders() >= kind.orders && below(2) > 0) {
+        if (model.orders.size() >= kind.orders && below(2) > 0) {
             counts();
             return;
         }
@@ -655,42 +717,6 @@ public final class ModelTest {
                 }
             }
             return -1;
-        }
-
-        /** The same text as View makes of the program. */
-        String view() {
-            StringBuilder text = new StringBuilder();
-            for (int at = 0; at < breaks.size(); at++) {
-                Break in = breaks.get(at);
-                text.append("break ").append(at).append(in.aired ? " aired" : " open");
-                text.append(" room ").append(roomOf(in, null)).append(" ratings");
-                for (int rating : in.rating) {
-                    text.append(' ').append(rating);
-                }
-                text.append('\n');
-            }
-            for (int number = 0; number < orders.size(); number++) {
-                Order order = orders.get(number);
-                text.append("order ").append(number);
-                text.append(" delivered ").append(deliveredBy(order));
-                text.append(" owed ").append(owedTo(order));
-                text.append(" rest ").append(restOf(order));
-                text.append(" bill ").append(billOf(order)).append(" why");
-                for (Break in : breaks) {
-                    text.append(' ').append(reason(order, in, null));
-                }
-                text.append('\n');
-            }
-            for (int number = 0; number < spots.size(); number++) {
-                text.append("spot ").append(number);
-                text.append(" state ").append(stateOf(number));
-                text.append(" break ").append(breakOf(number)).append('\n');
-            }
-            text.append("bills");
-            for (int advertiser = 0; advertiser < 10; advertiser++) {
-                text.append(' ').append(billsOf(advertiser));
-            }
-            return text.append(" most owed ").append(mostOwed()).toString();
         }
     }
 }

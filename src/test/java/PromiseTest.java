@@ -1,3 +1,5 @@
+import java.util.function.Consumer;
+
 /** For each promise of the document: ordinary inputs, the edges that it names, and wrong inputs. */
 public final class PromiseTest {
     private static final Class<IndexOutOfBoundsException> NO_SUCH = IndexOutOfBoundsException.class;
@@ -7,6 +9,7 @@ public final class PromiseTest {
     private static final int[] FAR = {Integer.MIN_VALUE, -1000000, 1000000, Integer.MAX_VALUE};
 
     private static final Check CHECK = new Check();
+    private static final Twins TWINS = new Twins(CHECK);
 
     public static void main(String[] args) {
         newObject();
@@ -48,9 +51,18 @@ public final class PromiseTest {
         CHECK.end();
     }
 
+    /** The call must throw exactly this exception, and must leave the account as it is. */
+    private static void refused(
+            String what,
+            Account account,
+            Class<? extends Exception> want,
+            Consumer<Account> call) {
+        TWINS.refused(what, account::twin, want, call);
+    }
+
     /** So many breaks of a length; each is rated the same for all groups. */
-    private static SpotAccount station(int breaks, int seconds, int rating) {
-        SpotAccount account = new SpotAccount();
+    private static Account station(int breaks, int seconds, int rating) {
+        Account account = new Account();
         for (int at = 0; at < breaks; at++) {
             account.addBreak(seconds);
             for (int group = 0; group < 3; group++) {
@@ -61,13 +73,13 @@ public final class PromiseTest {
     }
 
     /** An order of group 0, 30 seconds, price 100, floor 0. */
-    private static int order(SpotAccount account, int advertiser, int category, int promise) {
+    private static int order(Account account, int advertiser, int category, int promise) {
         return account.addOrder(advertiser, category, 0, 30, 100, promise, 0);
     }
 
     private static void newObject() {
         CHECK.begin("promise 1");
-        SpotAccount account = new SpotAccount();
+        Account account = new Account();
         CHECK.due("breaks()", account.breaks(), 0);
         CHECK.due("orders()", account.orders(), 0);
         CHECK.due("spots()", account.spots(), 0);
@@ -76,16 +88,16 @@ public final class PromiseTest {
             CHECK.due("billTo", account.billTo(advertiser), 0);
         }
         account.addBreak(60);
-        CHECK.due("breaks() of another object", new SpotAccount().breaks(), 0);
+        CHECK.due("breaks() of another object", new Account().breaks(), 0);
     }
 
     private static void addBreak() {
         CHECK.begin("promise 2");
-        SpotAccount account = new SpotAccount();
-        CHECK.refused("addBreak(14)", account, RANGE, () -> account.addBreak(14));
-        CHECK.refused("addBreak(601)", account, RANGE, () -> account.addBreak(601));
+        Account account = new Account();
+        refused("addBreak(14)", account, RANGE, x -> x.addBreak(14));
+        refused("addBreak(601)", account, RANGE, x -> x.addBreak(601));
         for (int seconds : FAR) {
-            CHECK.refused("addBreak", account, RANGE, () -> account.addBreak(seconds));
+            refused("addBreak", account, RANGE, x -> x.addBreak(seconds));
         }
         CHECK.due("addBreak(15)", account.addBreak(15), 0);
         CHECK.due("addBreak(600)", account.addBreak(600), 1);
@@ -99,13 +111,13 @@ public final class PromiseTest {
             CHECK.due("addBreak", account.addBreak(100 + at), at);
         }
         CHECK.due("room(23)", account.room(23), 123);
-        CHECK.refused("the 25th break", account, STATE, () -> account.addBreak(60));
-        CHECK.refused("a wrong 25th break", account, RANGE, () -> account.addBreak(14));
+        refused("the 25th break", account, STATE, x -> x.addBreak(60));
+        refused("a wrong 25th break", account, RANGE, x -> x.addBreak(14));
     }
 
     private static void rate() {
         CHECK.begin("promise 3");
-        SpotAccount account = station(2, 60, 0);
+        Account account = station(2, 60, 0);
         CHECK.due("rate", account.rate(0, 0, 7), 0);
         CHECK.due("rate", account.rate(0, 1, 100000), 0);
         CHECK.due("rate", account.rate(1, 2, 9), 0);
@@ -117,23 +129,23 @@ public final class PromiseTest {
         account.air(1);
         CHECK.due("rate of an aired break", account.rate(1, 2, 11), 9);
         CHECK.due("rating", account.rating(1, 2), 11);
-        CHECK.refused("rate", account, NO_SUCH, () -> account.rate(-1, 0, 5));
-        CHECK.refused("rate", account, NO_SUCH, () -> account.rate(2, 0, 5));
-        CHECK.refused("rate", account, NO_SUCH, () -> account.rate(2, 3, 100001));
-        CHECK.refused("rate", account, RANGE, () -> account.rate(0, -1, 5));
-        CHECK.refused("rate", account, RANGE, () -> account.rate(0, 3, 5));
-        CHECK.refused("rate", account, RANGE, () -> account.rate(0, 0, -1));
-        CHECK.refused("rate", account, RANGE, () -> account.rate(0, 0, 100001));
+        refused("rate", account, NO_SUCH, x -> x.rate(-1, 0, 5));
+        refused("rate", account, NO_SUCH, x -> x.rate(2, 0, 5));
+        refused("rate", account, NO_SUCH, x -> x.rate(2, 3, 100001));
+        refused("rate", account, RANGE, x -> x.rate(0, -1, 5));
+        refused("rate", account, RANGE, x -> x.rate(0, 3, 5));
+        refused("rate", account, RANGE, x -> x.rate(0, 0, -1));
+        refused("rate", account, RANGE, x -> x.rate(0, 0, 100001));
         for (int far : FAR) {
-            CHECK.refused("rate", account, NO_SUCH, () -> account.rate(far, 0, 5));
-            CHECK.refused("rate", account, RANGE, () -> account.rate(0, far, 5));
-            CHECK.refused("rate", account, RANGE, () -> account.rate(0, 0, far));
+            refused("rate", account, NO_SUCH, x -> x.rate(far, 0, 5));
+            refused("rate", account, RANGE, x -> x.rate(0, far, 5));
+            refused("rate", account, RANGE, x -> x.rate(0, 0, far));
         }
     }
 
     private static void air() {
         CHECK.begin("promise 4");
-        SpotAccount account = station(4, 120, 10);
+        Account account = station(4, 120, 10);
         order(account, 0, 0, 500);
         order(account, 1, 1, 500);
         order(account, 2, 2, 500);
@@ -150,21 +162,21 @@ public final class PromiseTest {
         CHECK.due("isAired(0)", account.isAired(0), true);
         CHECK.due("isAired(1)", account.isAired(1), false);
         CHECK.due("room(0)", account.room(0), 60);
-        CHECK.refused("air again", account, STATE, () -> account.air(0));
+        refused("air again", account, STATE, x -> x.air(0));
         account.miss(3);
         CHECK.due("air(1), its spot missed", account.air(1), 0);
         CHECK.due("stateOf(3)", account.stateOf(3), SpotAccount.MISSED);
         CHECK.due("air(3), without spots", account.air(3), 0);
-        CHECK.refused("air(-1)", account, NO_SUCH, () -> account.air(-1));
-        CHECK.refused("air(4)", account, NO_SUCH, () -> account.air(4));
+        refused("air(-1)", account, NO_SUCH, x -> x.air(-1));
+        refused("air(4)", account, NO_SUCH, x -> x.air(4));
         for (int far : FAR) {
-            CHECK.refused("air", account, NO_SUCH, () -> account.air(far));
+            refused("air", account, NO_SUCH, x -> x.air(far));
         }
     }
 
     private static void breaks() {
         CHECK.begin("promise 5");
-        SpotAccount account = new SpotAccount();
+        Account account = new Account();
         for (int count = 0; count < 24; count++) {
             CHECK.due("breaks()", account.breaks(), count);
             account.addBreak(60);
@@ -175,23 +187,23 @@ public final class PromiseTest {
 
     private static void isAired() {
         CHECK.begin("promise 6");
-        SpotAccount account = station(24, 60, 0);
+        Account account = station(24, 60, 0);
         account.air(23);
         CHECK.due("isAired(23)", account.isAired(23), true);
         CHECK.due("isAired(22)", account.isAired(22), false);
         CHECK.due("isAired(0)", account.isAired(0), false);
-        CHECK.refused("isAired(-1)", account, NO_SUCH, () -> account.isAired(-1));
-        CHECK.refused("isAired(24)", account, NO_SUCH, () -> account.isAired(24));
+        refused("isAired(-1)", account, NO_SUCH, x -> x.isAired(-1));
+        refused("isAired(24)", account, NO_SUCH, x -> x.isAired(24));
         for (int far : FAR) {
-            CHECK.refused("isAired", account, NO_SUCH, () -> account.isAired(far));
+            refused("isAired", account, NO_SUCH, x -> x.isAired(far));
         }
-        SpotAccount small = station(1, 60, 0);
-        CHECK.refused("isAired(1)", small, NO_SUCH, () -> small.isAired(1));
+        Account small = station(1, 60, 0);
+        refused("isAired(1)", small, NO_SUCH, x -> x.isAired(1));
     }
 
     private static void room() {
         CHECK.begin("promise 7");
-        SpotAccount account = station(3, 120, 10);
+        Account account = station(3, 120, 10);
         account.addOrder(0, 0, 0, 15, 1, 500, 0);
         account.addOrder(1, 1, 0, 30, 1, 500, 0);
         account.addOrder(2, 2, 0, 60, 1, 500, 0);
@@ -214,16 +226,16 @@ public final class PromiseTest {
         account.place(1, 2);
         account.close(1);
         CHECK.due("room(2) after a close", account.room(2), 120);
-        CHECK.refused("room(-1)", account, NO_SUCH, () -> account.room(-1));
-        CHECK.refused("room(3)", account, NO_SUCH, () -> account.room(3));
+        refused("room(-1)", account, NO_SUCH, x -> x.room(-1));
+        refused("room(3)", account, NO_SUCH, x -> x.room(3));
         for (int far : FAR) {
-            CHECK.refused("room", account, NO_SUCH, () -> account.room(far));
+            refused("room", account, NO_SUCH, x -> x.room(far));
         }
     }
 
     private static void rating() {
         CHECK.begin("promise 8");
-        SpotAccount account = station(24, 60, 0);
+        Account account = station(24, 60, 0);
         for (int at = 0; at < 24; at++) {
             for (int group = 0; group < 3; group++) {
                 account.rate(at, group, 10 * at + group);
@@ -234,21 +246,21 @@ public final class PromiseTest {
                 CHECK.due("rating", account.rating(at, group), 10 * at + group);
             }
         }
-        CHECK.refused("rating", account, NO_SUCH, () -> account.rating(-1, 0));
-        CHECK.refused("rating", account, NO_SUCH, () -> account.rating(24, 0));
-        CHECK.refused("rating", account, NO_SUCH, () -> account.rating(24, 3));
-        CHECK.refused("rating", account, RANGE, () -> account.rating(0, -1));
-        CHECK.refused("rating", account, RANGE, () -> account.rating(0, 3));
-        CHECK.refused("rating", account, RANGE, () -> account.rating(23, 3));
+        refused("rating", account, NO_SUCH, x -> x.rating(-1, 0));
+        refused("rating", account, NO_SUCH, x -> x.rating(24, 0));
+        refused("rating", account, NO_SUCH, x -> x.rating(24, 3));
+        refused("rating", account, RANGE, x -> x.rating(0, -1));
+        refused("rating", account, RANGE, x -> x.rating(0, 3));
+        refused("rating", account, RANGE, x -> x.rating(23, 3));
         for (int far : FAR) {
-            CHECK.refused("rating", account, NO_SUCH, () -> account.rating(far, 0));
-            CHECK.refused("rating", account, RANGE, () -> account.rating(0, far));
+            refused("rating", account, NO_SUCH, x -> x.rating(far, 0));
+            refused("rating", account, RANGE, x -> x.rating(0, far));
         }
     }
 
     private static void addOrder() {
         CHECK.begin("promise 9");
-        SpotAccount account = station(2, 60, 50);
+        Account account = station(2, 60, 50);
         CHECK.due("addOrder", account.addOrder(0, 0, 0, 15, 0, 0, 0), 0);
         CHECK.due(
                 "addOrder at its greatest",
@@ -270,7 +282,7 @@ public final class PromiseTest {
 
     private static void addOrderRanges() {
         CHECK.begin("promise 9, ranges");
-        SpotAccount account = station(1, 60, 50);
+        Account account = station(1, 60, 50);
         int[] least = {0, 0, 0, 15, 0, 0, 0};
         int[] most = {9, 7, 2, 60, 1000000, 1000000, 100000};
         for (int place = 0; place < 7; place++) {
@@ -285,30 +297,30 @@ public final class PromiseTest {
         CHECK.due("orders()", account.orders(), 0);
     }
 
-    private static void refuseOrder(SpotAccount account, int place, int value) {
+    private static void refuseOrder(Account account, int place, int value) {
         int[] all = {1, 1, 1, 30, 1, 1, 1};
         all[place] = value;
-        CHECK.refused(
+        refused(
                 "addOrder with argument " + place + " of " + value,
                 account,
                 RANGE,
-                () -> account.addOrder(all[0], all[1], all[2], all[3], all[4], all[5], all[6]));
+                x -> x.addOrder(all[0], all[1], all[2], all[3], all[4], all[5], all[6]));
     }
 
     private static void addOrderUpToTwenty() {
         CHECK.begin("promise 9, twenty orders");
-        SpotAccount account = new SpotAccount();
+        Account account = new Account();
         for (int order = 0; order < 20; order++) {
             CHECK.due("addOrder", order(account, 0, 0, 10), order);
         }
-        CHECK.refused("the 21st order", account, STATE, () -> order(account, 0, 0, 10));
-        CHECK.refused("a wrong 21st order", account, RANGE, () -> order(account, 10, 0, 10));
+        refused("the 21st order", account, STATE, x -> order(x, 0, 0, 10));
+        refused("a wrong 21st order", account, RANGE, x -> order(x, 10, 0, 10));
         CHECK.due("close(19)", account.close(19), 10);
     }
 
     private static void close() {
         CHECK.begin("promise 10");
-        SpotAccount account = station(4, 60, 40);
+        Account account = station(4, 60, 40);
         order(account, 0, 0, 100);
         order(account, 1, 1, 100);
         account.place(0, 0);
@@ -324,24 +336,24 @@ public final class PromiseTest {
         CHECK.due("missed spots stay", account.stateOf(3), SpotAccount.MISSED);
         CHECK.due("owed(0)", account.owed(0), 60);
         CHECK.due("owed(1)", account.owed(1), 0);
-        CHECK.refused("close again", account, STATE, () -> account.close(0));
-        CHECK.refused("place when closed", account, STATE, () -> account.place(0, 1));
-        CHECK.refused("fill when closed", account, STATE, () -> account.fill(0, 1));
+        refused("close again", account, STATE, x -> x.close(0));
+        refused("place when closed", account, STATE, x -> x.place(0, 1));
+        refused("fill when closed", account, STATE, x -> x.fill(0, 1));
         account.place(1, 1);
         account.place(1, 2);
         account.air(1);
         account.air(2);
         CHECK.due("close(1), more than promised", account.close(1), 0);
-        CHECK.refused("close(-1)", account, NO_SUCH, () -> account.close(-1));
-        CHECK.refused("close(2)", account, NO_SUCH, () -> account.close(2));
+        refused("close(-1)", account, NO_SUCH, x -> x.close(-1));
+        refused("close(2)", account, NO_SUCH, x -> x.close(2));
         for (int far : FAR) {
-            CHECK.refused("close", account, NO_SUCH, () -> account.close(far));
+            refused("close", account, NO_SUCH, x -> x.close(far));
         }
         closeDropsPlannedSpots();
     }
 
     private static void closeDropsPlannedSpots() {
-        SpotAccount account = station(2, 60, 40);
+        Account account = station(2, 60, 40);
         order(account, 0, 0, 100);
         order(account, 1, 1, 100);
         account.place(0, 0);
@@ -350,7 +362,7 @@ public final class PromiseTest {
         CHECK.due("stateOf(0)", account.stateOf(0), SpotAccount.DROPPED);
         CHECK.due("stateOf(1)", account.stateOf(1), SpotAccount.PLANNED);
 
-        SpotAccount full = withSpots(149);
+        Account full = withSpots(149);
         full.place(0, 1);
         CHECK.due("close when there are 150 spots", full.close(0), 1000);
         CHECK.due("stateOf(149)", full.stateOf(149), SpotAccount.DROPPED);
@@ -358,7 +370,7 @@ public final class PromiseTest {
 
     private static void orders() {
         CHECK.begin("promise 11");
-        SpotAccount account = new SpotAccount();
+        Account account = new Account();
         for (int count = 0; count < 20; count++) {
             CHECK.due("orders()", account.orders(), count);
             order(account, 0, 0, 10);
@@ -369,7 +381,7 @@ public final class PromiseTest {
 
     private static void whyNotOneByOne() {
         CHECK.begin("promise 12");
-        SpotAccount account = station(6, 60, 40);
+        Account account = station(6, 60, 40);
         account.addOrder(0, 0, 0, 30, 1, 500, 40);
         order(account, 1, 0, 500);
         order(account, 0, 1, 500);
@@ -392,20 +404,20 @@ public final class PromiseTest {
         CHECK.due("whyNot, other order of the advertiser", account.whyNot(2, 5), 4);
         CHECK.due("whyNot, the last break", account.whyNot(1, 5), 5);
         CHECK.due("whyNot, next to the last break", account.whyNot(1, 4), 6);
-        CHECK.refused("whyNot", account, NO_SUCH, () -> account.whyNot(-1, 0));
-        CHECK.refused("whyNot", account, NO_SUCH, () -> account.whyNot(4, 0));
-        CHECK.refused("whyNot", account, NO_SUCH, () -> account.whyNot(0, -1));
-        CHECK.refused("whyNot", account, NO_SUCH, () -> account.whyNot(0, 6));
+        refused("whyNot", account, NO_SUCH, x -> x.whyNot(-1, 0));
+        refused("whyNot", account, NO_SUCH, x -> x.whyNot(4, 0));
+        refused("whyNot", account, NO_SUCH, x -> x.whyNot(0, -1));
+        refused("whyNot", account, NO_SUCH, x -> x.whyNot(0, 6));
         for (int far : FAR) {
-            CHECK.refused("whyNot", account, NO_SUCH, () -> account.whyNot(far, 0));
-            CHECK.refused("whyNot", account, NO_SUCH, () -> account.whyNot(0, far));
+            refused("whyNot", account, NO_SUCH, x -> x.whyNot(far, 0));
+            refused("whyNot", account, NO_SUCH, x -> x.whyNot(0, far));
         }
     }
 
     /** All six reasons hold at once; they are then taken away from the first on. */
     private static void whyNotFirstReason() {
         CHECK.begin("promise 12, the first reason");
-        SpotAccount account = station(5, 60, 40);
+        Account account = station(5, 60, 40);
         account.addOrder(0, 0, 0, 30, 1, 500, 50);
         order(account, 0, 1, 500);
         order(account, 1, 0, 500);
@@ -416,7 +428,7 @@ public final class PromiseTest {
         account.air(1);
         CHECK.due("whyNot", account.whyNot(0, 1), 1);
 
-        SpotAccount open = station(3, 60, 40);
+        Account open = station(3, 60, 40);
         open.addOrder(0, 0, 0, 30, 1, 500, 50);
         order(open, 0, 1, 500);
         order(open, 1, 0, 500);
@@ -433,7 +445,7 @@ public final class PromiseTest {
         open.drop(0);
         CHECK.due("whyNot", open.whyNot(0, 1), 0);
 
-        SpotAccount wide = station(3, 120, 40);
+        Account wide = station(3, 120, 40);
         order(wide, 0, 0, 500);
         order(wide, 0, 1, 500);
         order(wide, 1, 0, 500);
@@ -444,7 +456,7 @@ public final class PromiseTest {
 
     private static void whyNotWhatCounts() {
         CHECK.begin("promise 12, planned and aired spots count");
-        SpotAccount account = station(3, 60, 40);
+        Account account = station(3, 60, 40);
         order(account, 0, 0, 500);
         order(account, 1, 0, 500);
         account.place(0, 0);
@@ -468,7 +480,7 @@ public final class PromiseTest {
 
     private static void place() {
         CHECK.begin("promise 13");
-        SpotAccount account = station(3, 60, 40);
+        Account account = station(3, 60, 40);
         account.addOrder(0, 0, 0, 30, 100, 500, 10);
         order(account, 1, 0, 500);
         CHECK.due("place(0, 1)", account.place(0, 1), 0);
@@ -476,32 +488,32 @@ public final class PromiseTest {
         CHECK.due("breakOf(0)", account.breakOf(0), 1);
         CHECK.due("room(1)", account.room(1), 30);
         CHECK.due("place(0, 2)", account.place(0, 2), 1);
-        CHECK.refused("place, reason 4", account, STATE, () -> account.place(0, 1));
-        CHECK.refused("place, reason 5", account, STATE, () -> account.place(1, 1));
-        CHECK.refused("place, reason 6", account, STATE, () -> account.place(1, 0));
+        refused("place, reason 4", account, STATE, x -> x.place(0, 1));
+        refused("place, reason 5", account, STATE, x -> x.place(1, 1));
+        refused("place, reason 6", account, STATE, x -> x.place(1, 0));
         account.air(1);
         CHECK.due("a paid spot is billed", account.bill(0), 100);
         account.air(0);
-        CHECK.refused("place, reason 1", account, STATE, () -> account.place(0, 0));
+        refused("place, reason 1", account, STATE, x -> x.place(0, 0));
         account.addBreak(15);
         account.addBreak(60);
         account.rate(4, 0, 9);
-        CHECK.refused("place, reason 2", account, STATE, () -> account.place(0, 3));
-        CHECK.refused("place, reason 3", account, STATE, () -> account.place(0, 4));
+        refused("place, reason 2", account, STATE, x -> x.place(0, 3));
+        refused("place, reason 3", account, STATE, x -> x.place(0, 4));
         account.rate(4, 0, 10);
         CHECK.due("place(0, 4)", account.place(0, 4), 2);
         account.drop(2);
         account.close(0);
-        CHECK.refused("place when closed", account, STATE, () -> account.place(0, 4));
-        CHECK.refused("place", account, NO_SUCH, () -> account.place(-1, 0));
-        CHECK.refused("place", account, NO_SUCH, () -> account.place(2, 0));
-        CHECK.refused("place", account, NO_SUCH, () -> account.place(0, -1));
-        CHECK.refused("place", account, NO_SUCH, () -> account.place(0, 5));
+        refused("place when closed", account, STATE, x -> x.place(0, 4));
+        refused("place", account, NO_SUCH, x -> x.place(-1, 0));
+        refused("place", account, NO_SUCH, x -> x.place(2, 0));
+        refused("place", account, NO_SUCH, x -> x.place(0, -1));
+        refused("place", account, NO_SUCH, x -> x.place(0, 5));
         for (int far : FAR) {
-            CHECK.refused("place", account, NO_SUCH, () -> account.place(far, 4));
-            CHECK.refused("place", account, NO_SUCH, () -> account.place(1, far));
+            refused("place", account, NO_SUCH, x -> x.place(far, 4));
+            refused("place", account, NO_SUCH, x -> x.place(1, far));
         }
-        SpotAccount met = station(1, 60, 40);
+        Account met = station(1, 60, 40);
         order(met, 0, 0, 10);
         met.place(0, 0);
         met.air(0);
@@ -510,8 +522,8 @@ public final class PromiseTest {
         CHECK.due("place above the promise", met.place(0, 1), 1);
     }
 
-    private static SpotAccount withSpots(int count) {
-        SpotAccount account = station(2, 60, 40);
+    private static Account withSpots(int count) {
+        Account account = station(2, 60, 40);
         order(account, 0, 0, 1000);
         for (int spot = 0; spot < count; spot++) {
             account.place(0, 0);
@@ -522,20 +534,20 @@ public final class PromiseTest {
 
     private static void placeUpToTheLimit() {
         CHECK.begin("promise 13, 150 spots");
-        SpotAccount account = withSpots(149);
+        Account account = withSpots(149);
         CHECK.due("the 150th spot", account.place(0, 0), 149);
         CHECK.due("whyNot(0, 1)", account.whyNot(0, 1), 0);
-        CHECK.refused("the 151st spot", account, STATE, () -> account.place(0, 1));
-        CHECK.refused("no such break", account, NO_SUCH, () -> account.place(0, 2));
+        refused("the 151st spot", account, STATE, x -> x.place(0, 1));
+        refused("no such break", account, NO_SUCH, x -> x.place(0, 2));
         CHECK.due("move when there are 150 spots", account.move(149, 1), 0);
     }
 
     private static void give() {
         CHECK.begin("promise 14");
-        SpotAccount account = station(5, 60, 40);
+        Account account = station(5, 60, 40);
         account.addOrder(0, 0, 0, 30, 100, 60, 10);
         order(account, 1, 0, 500);
-        CHECK.refused("give when open", account, STATE, () -> account.give(0, 0));
+        refused("give when open", account, STATE, x -> x.give(0, 0));
         account.place(1, 4);
         account.close(0);
         CHECK.due("give(0, 1)", account.give(0, 1), 1);
@@ -543,13 +555,13 @@ public final class PromiseTest {
         CHECK.due("stateOf(1)", account.stateOf(1), SpotAccount.PLANNED);
         CHECK.due("breakOf(1)", account.breakOf(1), 1);
         CHECK.due("room(1)", account.room(1), 30);
-        CHECK.refused("give, reason 4", account, STATE, () -> account.give(0, 1));
-        CHECK.refused("give, reason 5", account, STATE, () -> account.give(0, 4));
-        CHECK.refused("give, reason 6", account, STATE, () -> account.give(0, 3));
+        refused("give, reason 4", account, STATE, x -> x.give(0, 1));
+        refused("give, reason 5", account, STATE, x -> x.give(0, 4));
+        refused("give, reason 6", account, STATE, x -> x.give(0, 3));
         account.rate(2, 0, 9);
-        CHECK.refused("give, reason 3", account, STATE, () -> account.give(0, 2));
+        refused("give, reason 3", account, STATE, x -> x.give(0, 2));
         account.air(2);
-        CHECK.refused("give, reason 1", account, STATE, () -> account.give(0, 2));
+        refused("give, reason 1", account, STATE, x -> x.give(0, 2));
         CHECK.due("give(0, 0)", account.give(0, 0), 2);
         CHECK.due("rest(0)", account.rest(0), 0);
         account.drop(0);
@@ -557,32 +569,32 @@ public final class PromiseTest {
         account.air(1);
         CHECK.due("a free spot is not billed", account.bill(0), 0);
         CHECK.due("a free spot delivers", account.delivered(0), 80);
-        CHECK.refused("give when the rest is 0", account, STATE, () -> account.give(0, 4));
+        refused("give when the rest is 0", account, STATE, x -> x.give(0, 4));
         account.miss(1);
         account.addBreak(15);
         account.rate(5, 0, 40);
-        CHECK.refused("give, reason 2", account, STATE, () -> account.give(0, 5));
+        refused("give, reason 2", account, STATE, x -> x.give(0, 5));
         CHECK.due("give after a miss", account.give(0, 4), 3);
-        CHECK.refused("give", account, NO_SUCH, () -> account.give(-1, 0));
-        CHECK.refused("give", account, NO_SUCH, () -> account.give(2, 0));
-        CHECK.refused("give", account, NO_SUCH, () -> account.give(0, -1));
-        CHECK.refused("give", account, NO_SUCH, () -> account.give(0, 6));
+        refused("give", account, NO_SUCH, x -> x.give(-1, 0));
+        refused("give", account, NO_SUCH, x -> x.give(2, 0));
+        refused("give", account, NO_SUCH, x -> x.give(0, -1));
+        refused("give", account, NO_SUCH, x -> x.give(0, 6));
         for (int far : FAR) {
-            CHECK.refused("give", account, NO_SUCH, () -> account.give(far, 4));
-            CHECK.refused("give", account, NO_SUCH, () -> account.give(0, far));
+            refused("give", account, NO_SUCH, x -> x.give(far, 4));
+            refused("give", account, NO_SUCH, x -> x.give(0, far));
         }
     }
 
     private static void giveUpToTheLimit() {
         CHECK.begin("promise 14, 150 spots");
-        SpotAccount account = withSpots(149);
+        Account account = withSpots(149);
         account.close(0);
         CHECK.due("the 150th spot", account.give(0, 0), 149);
         CHECK.due("rest(0)", account.rest(0), 960);
         CHECK.due("whyNot(0, 1)", account.whyNot(0, 1), 0);
-        CHECK.refused("the 151st spot", account, STATE, () -> account.give(0, 1));
+        refused("the 151st spot", account, STATE, x -> x.give(0, 1));
 
-        SpotAccount one = station(1, 60, 40);
+        Account one = station(1, 60, 40);
         order(one, 0, 0, 1);
         one.close(0);
         CHECK.due("give for a rest of 1", one.give(0, 0), 0);
@@ -590,7 +602,7 @@ public final class PromiseTest {
 
     private static void fill() {
         CHECK.begin("promise 15");
-        SpotAccount account = station(6, 60, 40);
+        Account account = station(6, 60, 40);
         order(account, 0, 0, 121);
         CHECK.due("fill(0, 1)", account.fill(0, 1), 1);
         CHECK.due("breakOf(0)", account.breakOf(0), 0);
@@ -608,23 +620,23 @@ public final class PromiseTest {
         CHECK.due("fill does not count missed aired ones", account.fill(0, 24), 1);
         account.air(1);
         CHECK.due("paid spots are billed", account.bill(0), 100);
-        CHECK.refused("fill(0, 0)", account, RANGE, () -> account.fill(0, 0));
-        CHECK.refused("fill(0, 25)", account, RANGE, () -> account.fill(0, 25));
-        CHECK.refused("fill(-1, 1)", account, NO_SUCH, () -> account.fill(-1, 1));
-        CHECK.refused("fill(1, 0)", account, NO_SUCH, () -> account.fill(1, 0));
+        refused("fill(0, 0)", account, RANGE, x -> x.fill(0, 0));
+        refused("fill(0, 25)", account, RANGE, x -> x.fill(0, 25));
+        refused("fill(-1, 1)", account, NO_SUCH, x -> x.fill(-1, 1));
+        refused("fill(1, 0)", account, NO_SUCH, x -> x.fill(1, 0));
         account.close(0);
-        CHECK.refused("fill when closed", account, STATE, () -> account.fill(0, 1));
-        CHECK.refused("fill when closed", account, RANGE, () -> account.fill(0, 0));
-        CHECK.refused("fill when closed", account, NO_SUCH, () -> account.fill(1, 1));
+        refused("fill when closed", account, STATE, x -> x.fill(0, 1));
+        refused("fill when closed", account, RANGE, x -> x.fill(0, 0));
+        refused("fill when closed", account, NO_SUCH, x -> x.fill(1, 1));
         for (int far : FAR) {
-            CHECK.refused("fill", account, NO_SUCH, () -> account.fill(far, 1));
-            CHECK.refused("fill", account, RANGE, () -> account.fill(0, far));
+            refused("fill", account, NO_SUCH, x -> x.fill(far, 1));
+            refused("fill", account, RANGE, x -> x.fill(0, far));
         }
     }
 
     private static void fillChoosesTheGreatest() {
         CHECK.begin("promise 15, which break");
-        SpotAccount account = station(8, 60, 0);
+        Account account = station(8, 60, 0);
         int[] ratings = {5, 30, 7, 30, 50, 60, 0, 70};
         for (int at = 0; at < 8; at++) {
             account.rate(at, 1, ratings[at]);
@@ -646,28 +658,28 @@ public final class PromiseTest {
 
     private static void fillEnds() {
         CHECK.begin("promise 15, where it ends");
-        SpotAccount exact = station(5, 60, 40);
+        Account exact = station(5, 60, 40);
         order(exact, 0, 0, 80);
         CHECK.due("fill just up to the promise", exact.fill(0, 24), 2);
 
-        SpotAccount zero = station(3, 60, 40);
+        Account zero = station(3, 60, 40);
         order(zero, 0, 0, 0);
         CHECK.due("fill with nothing promised", zero.fill(0, 24), 0);
 
-        SpotAccount none = new SpotAccount();
+        Account none = new Account();
         order(none, 0, 0, 10);
         CHECK.due("fill without breaks", none.fill(0, 24), 0);
 
-        SpotAccount all = station(24, 60, 1);
+        Account all = station(24, 60, 1);
         order(all, 0, 0, 1000);
         CHECK.due("fill(0, 23)", all.fill(0, 23), 23);
         CHECK.due("fill(0, 24)", all.fill(0, 24), 1);
 
-        SpotAccount most = station(24, 60, 1);
+        Account most = station(24, 60, 1);
         order(most, 0, 0, 1000);
         CHECK.due("fill(0, 24)", most.fill(0, 24), 24);
 
-        SpotAccount full = withSpots(149);
+        Account full = withSpots(149);
         CHECK.due("fill up to 150 spots", full.fill(0, 24), 1);
         CHECK.due("spots()", full.spots(), 150);
         CHECK.due("fill when there are 150 spots", full.fill(0, 24), 0);
@@ -675,7 +687,7 @@ public final class PromiseTest {
 
     private static void move() {
         CHECK.begin("promise 16");
-        SpotAccount account = station(6, 60, 40);
+        Account account = station(6, 60, 40);
         account.addOrder(0, 0, 0, 60, 100, 500, 10);
         order(account, 1, 0, 500);
         account.place(0, 0);
@@ -695,7 +707,7 @@ public final class PromiseTest {
         account.air(2);
         CHECK.due("the spot is billed yet", account.bill(0), 100);
 
-        SpotAccount free = station(3, 60, 40);
+        Account free = station(3, 60, 40);
         order(free, 0, 0, 100);
         free.close(0);
         free.give(0, 0);
@@ -708,7 +720,7 @@ public final class PromiseTest {
 
     private static void moveRefused() {
         CHECK.begin("promise 16, refused");
-        SpotAccount account = station(7, 60, 40);
+        Account account = station(7, 60, 40);
         account.addOrder(0, 0, 0, 30, 100, 500, 10);
         order(account, 1, 0, 500);
         order(account, 0, 1, 500);
@@ -717,38 +729,38 @@ public final class PromiseTest {
         account.place(1, 4);
         account.place(2, 2);
         account.place(3, 6);
-        CHECK.refused("move, reason 2", account, STATE, () -> account.move(0, 6));
-        CHECK.refused("move, reason 4", account, STATE, () -> account.move(0, 2));
-        CHECK.refused("move, reason 5", account, STATE, () -> account.move(0, 4));
-        CHECK.refused("move, reason 6", account, STATE, () -> account.move(0, 3));
+        refused("move, reason 2", account, STATE, x -> x.move(0, 6));
+        refused("move, reason 4", account, STATE, x -> x.move(0, 2));
+        refused("move, reason 5", account, STATE, x -> x.move(0, 4));
+        refused("move, reason 6", account, STATE, x -> x.move(0, 3));
         account.rate(1, 0, 9);
-        CHECK.refused("move, reason 3", account, STATE, () -> account.move(0, 1));
+        refused("move, reason 3", account, STATE, x -> x.move(0, 1));
         account.rate(1, 0, 10);
         account.air(1);
-        CHECK.refused("move, reason 1", account, STATE, () -> account.move(0, 1));
-        CHECK.refused("move", account, NO_SUCH, () -> account.move(-1, 0));
-        CHECK.refused("move", account, NO_SUCH, () -> account.move(4, 0));
-        CHECK.refused("move", account, NO_SUCH, () -> account.move(0, -1));
-        CHECK.refused("move", account, NO_SUCH, () -> account.move(0, 7));
+        refused("move, reason 1", account, STATE, x -> x.move(0, 1));
+        refused("move", account, NO_SUCH, x -> x.move(-1, 0));
+        refused("move", account, NO_SUCH, x -> x.move(4, 0));
+        refused("move", account, NO_SUCH, x -> x.move(0, -1));
+        refused("move", account, NO_SUCH, x -> x.move(0, 7));
         account.air(0);
-        CHECK.refused("move of an aired one", account, STATE, () -> account.move(0, 5));
-        CHECK.refused("move of an aired one", account, STATE, () -> account.move(0, 0));
-        CHECK.refused("move of an aired one", account, NO_SUCH, () -> account.move(0, 7));
+        refused("move of an aired one", account, STATE, x -> x.move(0, 5));
+        refused("move of an aired one", account, STATE, x -> x.move(0, 0));
+        refused("move of an aired one", account, NO_SUCH, x -> x.move(0, 7));
         account.miss(1);
-        CHECK.refused("move of a missed one", account, STATE, () -> account.move(1, 4));
-        CHECK.refused("move of a missed one", account, STATE, () -> account.move(1, 5));
+        refused("move of a missed one", account, STATE, x -> x.move(1, 4));
+        refused("move of a missed one", account, STATE, x -> x.move(1, 5));
         account.drop(2);
-        CHECK.refused("move of a dropped one", account, STATE, () -> account.move(2, 2));
-        CHECK.refused("move of a dropped one", account, STATE, () -> account.move(2, 3));
+        refused("move of a dropped one", account, STATE, x -> x.move(2, 2));
+        refused("move of a dropped one", account, STATE, x -> x.move(2, 3));
         for (int far : FAR) {
-            CHECK.refused("move", account, NO_SUCH, () -> account.move(far, 5));
-            CHECK.refused("move", account, NO_SUCH, () -> account.move(3, far));
+            refused("move", account, NO_SUCH, x -> x.move(far, 5));
+            refused("move", account, NO_SUCH, x -> x.move(3, far));
         }
     }
 
     private static void miss() {
         CHECK.begin("promise 17");
-        SpotAccount account = station(3, 60, 40);
+        Account account = station(3, 60, 40);
         order(account, 0, 0, 500);
         account.place(0, 0);
         account.place(0, 1);
@@ -762,20 +774,20 @@ public final class PromiseTest {
         CHECK.due("breakOf(1)", account.breakOf(1), 1);
         CHECK.due("delivered(0)", account.delivered(0), 0);
         CHECK.due("bill(0)", account.bill(0), 0);
-        CHECK.refused("miss of a missed one", account, STATE, () -> account.miss(0));
-        CHECK.refused("miss of a missed one", account, STATE, () -> account.miss(1));
+        refused("miss of a missed one", account, STATE, x -> x.miss(0));
+        refused("miss of a missed one", account, STATE, x -> x.miss(1));
         account.drop(2);
-        CHECK.refused("miss of a dropped one", account, STATE, () -> account.miss(2));
-        CHECK.refused("miss(-1)", account, NO_SUCH, () -> account.miss(-1));
-        CHECK.refused("miss(3)", account, NO_SUCH, () -> account.miss(3));
+        refused("miss of a dropped one", account, STATE, x -> x.miss(2));
+        refused("miss(-1)", account, NO_SUCH, x -> x.miss(-1));
+        refused("miss(3)", account, NO_SUCH, x -> x.miss(3));
         for (int far : FAR) {
-            CHECK.refused("miss", account, NO_SUCH, () -> account.miss(far));
+            refused("miss", account, NO_SUCH, x -> x.miss(far));
         }
     }
 
     private static void drop() {
         CHECK.begin("promise 18");
-        SpotAccount account = station(4, 60, 40);
+        Account account = station(4, 60, 40);
         order(account, 0, 0, 500);
         account.place(0, 0);
         account.place(0, 1);
@@ -786,21 +798,21 @@ public final class PromiseTest {
         CHECK.due("stateOf(0)", account.stateOf(0), SpotAccount.PLANNED);
         CHECK.due("breakOf(1)", account.breakOf(1), 1);
         CHECK.due("room(1)", account.room(1), 60);
-        CHECK.refused("drop of a dropped one", account, STATE, () -> account.drop(1));
+        refused("drop of a dropped one", account, STATE, x -> x.drop(1));
         account.air(0);
-        CHECK.refused("drop of an aired one", account, STATE, () -> account.drop(0));
+        refused("drop of an aired one", account, STATE, x -> x.drop(0));
         account.miss(2);
-        CHECK.refused("drop of a missed one", account, STATE, () -> account.drop(2));
-        CHECK.refused("drop(-1)", account, NO_SUCH, () -> account.drop(-1));
-        CHECK.refused("drop(4)", account, NO_SUCH, () -> account.drop(4));
+        refused("drop of a missed one", account, STATE, x -> x.drop(2));
+        refused("drop(-1)", account, NO_SUCH, x -> x.drop(-1));
+        refused("drop(4)", account, NO_SUCH, x -> x.drop(4));
         for (int far : FAR) {
-            CHECK.refused("drop", account, NO_SUCH, () -> account.drop(far));
+            refused("drop", account, NO_SUCH, x -> x.drop(far));
         }
     }
 
     private static void spots() {
         CHECK.begin("promise 19");
-        SpotAccount account = station(4, 60, 40);
+        Account account = station(4, 60, 40);
         order(account, 0, 0, 500);
         account.place(0, 0);
         CHECK.due("spots()", account.spots(), 1);
@@ -818,7 +830,7 @@ public final class PromiseTest {
 
     private static void stateOf() {
         CHECK.begin("promise 20");
-        SpotAccount account = station(4, 60, 40);
+        Account account = station(4, 60, 40);
         order(account, 0, 0, 500);
         account.place(0, 0);
         account.place(0, 1);
@@ -831,19 +843,19 @@ public final class PromiseTest {
         CHECK.due("stateOf(1)", account.stateOf(1), 1);
         CHECK.due("stateOf(2)", account.stateOf(2), 2);
         CHECK.due("stateOf(3)", account.stateOf(3), 3);
-        CHECK.refused("stateOf(-1)", account, NO_SUCH, () -> account.stateOf(-1));
-        CHECK.refused("stateOf(4)", account, NO_SUCH, () -> account.stateOf(4));
+        refused("stateOf(-1)", account, NO_SUCH, x -> x.stateOf(-1));
+        refused("stateOf(4)", account, NO_SUCH, x -> x.stateOf(4));
         for (int far : FAR) {
-            CHECK.refused("stateOf", account, NO_SUCH, () -> account.stateOf(far));
+            refused("stateOf", account, NO_SUCH, x -> x.stateOf(far));
         }
-        SpotAccount full = withSpots(150);
+        Account full = withSpots(150);
         CHECK.due("stateOf(149)", full.stateOf(149), 3);
-        CHECK.refused("stateOf(150)", full, NO_SUCH, () -> full.stateOf(150));
+        refused("stateOf(150)", full, NO_SUCH, x -> x.stateOf(150));
     }
 
     private static void breakOf() {
         CHECK.begin("promise 21");
-        SpotAccount account = station(4, 60, 40);
+        Account account = station(4, 60, 40);
         order(account, 0, 0, 500);
         account.place(0, 3);
         account.place(0, 1);
@@ -854,18 +866,18 @@ public final class PromiseTest {
         CHECK.due("breakOf(0)", account.breakOf(0), 3);
         CHECK.due("breakOf(1)", account.breakOf(1), 1);
         CHECK.due("breakOf(2)", account.breakOf(2), 2);
-        CHECK.refused("breakOf(-1)", account, NO_SUCH, () -> account.breakOf(-1));
-        CHECK.refused("breakOf(3)", account, NO_SUCH, () -> account.breakOf(3));
+        refused("breakOf(-1)", account, NO_SUCH, x -> x.breakOf(-1));
+        refused("breakOf(3)", account, NO_SUCH, x -> x.breakOf(3));
         for (int far : FAR) {
-            CHECK.refused("breakOf", account, NO_SUCH, () -> account.breakOf(far));
+            refused("breakOf", account, NO_SUCH, x -> x.breakOf(far));
         }
-        SpotAccount full = withSpots(150);
-        CHECK.refused("breakOf(150)", full, NO_SUCH, () -> full.breakOf(150));
+        Account full = withSpots(150);
+        refused("breakOf(150)", full, NO_SUCH, x -> x.breakOf(150));
     }
 
     private static void delivered() {
         CHECK.begin("promise 22");
-        SpotAccount account = station(5, 60, 0);
+        Account account = station(5, 60, 0);
         account.addOrder(0, 0, 2, 30, 100, 500, 0);
         account.addOrder(1, 1, 1, 30, 100, 500, 0);
         for (int at = 0; at < 5; at++) {
@@ -887,16 +899,16 @@ public final class PromiseTest {
         CHECK.due("delivered(0), free one planned", account.delivered(0), 102);
         account.air(4);
         CHECK.due("delivered(0), free one aired", account.delivered(0), 116);
-        CHECK.refused("delivered(-1)", account, NO_SUCH, () -> account.delivered(-1));
-        CHECK.refused("delivered(2)", account, NO_SUCH, () -> account.delivered(2));
+        refused("delivered(-1)", account, NO_SUCH, x -> x.delivered(-1));
+        refused("delivered(2)", account, NO_SUCH, x -> x.delivered(2));
         for (int far : FAR) {
-            CHECK.refused("delivered", account, NO_SUCH, () -> account.delivered(far));
+            refused("delivered", account, NO_SUCH, x -> x.delivered(far));
         }
     }
 
     private static void owed() {
         CHECK.begin("promise 23");
-        SpotAccount account = station(4, 60, 40);
+        Account account = station(4, 60, 40);
         order(account, 0, 0, 100);
         account.place(0, 0);
         account.air(0);
@@ -915,16 +927,16 @@ public final class PromiseTest {
         CHECK.due("owed(0), one less", account.owed(0), 1);
         account.miss(0);
         CHECK.due("owed(0) after a miss", account.owed(0), 60);
-        CHECK.refused("owed(-1)", account, NO_SUCH, () -> account.owed(-1));
-        CHECK.refused("owed(1)", account, NO_SUCH, () -> account.owed(1));
+        refused("owed(-1)", account, NO_SUCH, x -> x.owed(-1));
+        refused("owed(1)", account, NO_SUCH, x -> x.owed(1));
         for (int far : FAR) {
-            CHECK.refused("owed", account, NO_SUCH, () -> account.owed(far));
+            refused("owed", account, NO_SUCH, x -> x.owed(far));
         }
     }
 
     private static void rest() {
         CHECK.begin("promise 24");
-        SpotAccount account = station(4, 60, 40);
+        Account account = station(4, 60, 40);
         order(account, 0, 0, 100);
         order(account, 1, 1, 100);
         account.place(0, 0);
@@ -950,16 +962,16 @@ public final class PromiseTest {
         account.give(0, 2);
         account.drop(3);
         CHECK.due("rest(0), another is dropped", account.rest(0), 60);
-        CHECK.refused("rest(-1)", account, NO_SUCH, () -> account.rest(-1));
-        CHECK.refused("rest(2)", account, NO_SUCH, () -> account.rest(2));
+        refused("rest(-1)", account, NO_SUCH, x -> x.rest(-1));
+        refused("rest(2)", account, NO_SUCH, x -> x.rest(2));
         for (int far : FAR) {
-            CHECK.refused("rest", account, NO_SUCH, () -> account.rest(far));
+            refused("rest", account, NO_SUCH, x -> x.rest(far));
         }
     }
 
     private static void bill() {
         CHECK.begin("promise 25");
-        SpotAccount account = station(5, 60, 40);
+        Account account = station(5, 60, 40);
         account.addOrder(0, 0, 0, 15, 1000000, 500, 0);
         account.addOrder(1, 1, 0, 15, 7, 500, 0);
         for (int at = 0; at < 4; at++) {
@@ -981,16 +993,16 @@ public final class PromiseTest {
         account.air(3);
         account.air(4);
         CHECK.due("bill(0), a dropped and a free one", account.bill(0), 2000000);
-        CHECK.refused("bill(-1)", account, NO_SUCH, () -> account.bill(-1));
-        CHECK.refused("bill(2)", account, NO_SUCH, () -> account.bill(2));
+        refused("bill(-1)", account, NO_SUCH, x -> x.bill(-1));
+        refused("bill(2)", account, NO_SUCH, x -> x.bill(2));
         for (int far : FAR) {
-            CHECK.refused("bill", account, NO_SUCH, () -> account.bill(far));
+            refused("bill", account, NO_SUCH, x -> x.bill(far));
         }
     }
 
     private static void billTo() {
         CHECK.begin("promise 26");
-        SpotAccount account = station(6, 60, 40);
+        Account account = station(6, 60, 40);
         account.addOrder(9, 0, 0, 15, 10, 500, 0);
         account.addOrder(0, 1, 0, 15, 300, 500, 0);
         account.addOrder(9, 2, 0, 15, 5000, 500, 0);
@@ -1006,16 +1018,16 @@ public final class PromiseTest {
         CHECK.due("billTo(9)", account.billTo(9), 5020);
         CHECK.due("billTo(0)", account.billTo(0), 300);
         CHECK.due("billTo(5)", account.billTo(5), 0);
-        CHECK.refused("billTo(-1)", account, RANGE, () -> account.billTo(-1));
-        CHECK.refused("billTo(10)", account, RANGE, () -> account.billTo(10));
+        refused("billTo(-1)", account, RANGE, x -> x.billTo(-1));
+        refused("billTo(10)", account, RANGE, x -> x.billTo(10));
         for (int far : FAR) {
-            CHECK.refused("billTo", account, RANGE, () -> account.billTo(far));
+            refused("billTo", account, RANGE, x -> x.billTo(far));
         }
     }
 
     private static void mostOwed() {
         CHECK.begin("promise 27");
-        SpotAccount account = station(3, 120, 40);
+        Account account = station(3, 120, 40);
         order(account, 0, 0, 0);
         order(account, 1, 1, 50);
         order(account, 2, 2, 70);
@@ -1041,7 +1053,7 @@ public final class PromiseTest {
         account.give(1, 0);
         CHECK.due("mostOwed(), no rest", account.mostOwed(), SpotAccount.NONE);
 
-        SpotAccount one = station(1, 60, 40);
+        Account one = station(1, 60, 40);
         order(one, 0, 0, 1);
         one.close(0);
         CHECK.due("mostOwed() with a rest of 1", one.mostOwed(), 0);

@@ -45,7 +45,7 @@ public final class RefusedTest {
 
     private static void lively() {
         CHECK.begin("the account that most of these tests begin with");
-        SpotAccount account = Scenes.lively();
+        Account account = Scenes.lively();
         int[] states = {1, 0, 2, 3, 1, 3, 0};
         for (int spot = 0; spot < 7; spot++) {
             CHECK.due("stateOf(" + spot + ")", account.stateOf(spot), states[spot]);
@@ -58,15 +58,15 @@ public final class RefusedTest {
     private static void airAired() {
         CHECK.begin("Promise 4: Throws IllegalStateException if it is aired already");
         TWINS.refused("air(0)", Scenes::lively, STATE, x -> x.air(0));
-        Supplier<SpotAccount> missed = () -> {
-            SpotAccount account = Scenes.lively();
+        Supplier<Account> missed = () -> {
+            Account account = Scenes.lively();
             account.miss(0);
             account.miss(4);
             return account;
         };
         TWINS.refused("air of one whose spots are missed", missed, STATE, x -> x.air(0));
-        Supplier<SpotAccount> without = () -> {
-            SpotAccount account = Scenes.lively();
+        Supplier<Account> without = () -> {
+            Account account = Scenes.lively();
             account.air(6);
             return account;
         };
@@ -81,7 +81,7 @@ public final class RefusedTest {
     }
 
     private static int stateAfterSecondClose() {
-        SpotAccount account = Scenes.lively();
+        Account account = Scenes.lively();
         Check.thrownBy(() -> account.close(1));
         return account.stateOf(6);
     }
@@ -114,19 +114,19 @@ public final class RefusedTest {
         CHECK.begin("Promise 14: Throws IllegalStateException if the rest of the order is 0");
         TWINS.refused("give, open", Scenes::lively, STATE, x -> x.give(0, 5));
         TWINS.refused("give, owed nothing", Scenes::lively, STATE, x -> x.give(2, 5));
-        Supplier<SpotAccount> planned = () -> restOf(0);
+        Supplier<Account> planned = () -> restOf(0);
         TWINS.refused("give, enough is planned", planned, STATE, x -> x.give(1, 5));
         CHECK.due("rest(1)", restOf(0).rest(1), 0);
         CHECK.due("rest(1)", restOf(1).rest(1), 1);
         CHECK.due("give, a rest of 1", restOf(1).give(1, 5), 7);
         CHECK.due("rest(1)", restOf(-1).rest(1), 0);
-        Supplier<SpotAccount> above = () -> restOf(-1);
+        Supplier<Account> above = () -> restOf(-1);
         TWINS.refused("give, more than enough is planned", above, STATE, x -> x.give(1, 5));
     }
 
     /** Order 1 is owed 50: its planned free spot in break 2 leaves so much of that. */
-    private static SpotAccount restOf(int rest) {
-        SpotAccount account = Scenes.lively();
+    private static Account restOf(int rest) {
+        Account account = Scenes.lively();
         account.rate(2, 1, 50 - rest);
         return account;
     }
@@ -151,15 +151,15 @@ public final class RefusedTest {
                 x -> x.fill(0, 1));
     }
 
-    private static SpotAccount closedWithoutBreak() {
-        SpotAccount account = Scenes.orders(1);
+    private static Account closedWithoutBreak() {
+        Account account = Scenes.orders(1);
         account.close(0);
         return account;
     }
 
     private static void moveNotPlanned() {
         CHECK.begin("Promise 16: Throws IllegalStateException if it is not planned");
-        SpotAccount account = Scenes.lively();
+        Account account = Scenes.lively();
         for (int spot : new int[] {0, 2, 3, 4, 5}) {
             int own = account.breakOf(spot);
             for (int at = 0; at < 8; at++) {
@@ -174,8 +174,8 @@ public final class RefusedTest {
         CHECK.begin("Promise 16: Throws IllegalStateException if .. cannot go there");
         TWINS.refused("move, reason 1", Scenes::lively, STATE, x -> x.move(1, 0));
         TWINS.refused("move, reason 1", Scenes::lively, STATE, x -> x.move(6, 0));
-        Supplier<SpotAccount> rival = () -> {
-            SpotAccount account = Scenes.lively();
+        Supplier<Account> rival = () -> {
+            Account account = Scenes.lively();
             account.place(3, 6);
             account.drop(6);
             return account;
@@ -193,8 +193,8 @@ public final class RefusedTest {
         for (int spot : new int[] {2, 3, 5}) {
             TWINS.refused("miss(" + spot + ")", Scenes::lively, STATE, x -> x.miss(spot));
         }
-        Supplier<SpotAccount> missed = () -> {
-            SpotAccount account = Scenes.lively();
+        Supplier<Account> missed = () -> {
+            Account account = Scenes.lively();
             account.miss(0);
             return account;
         };
@@ -206,8 +206,8 @@ public final class RefusedTest {
         for (int spot : new int[] {0, 2, 3, 4, 5}) {
             TWINS.refused("drop(" + spot + ")", Scenes::lively, STATE, x -> x.drop(spot));
         }
-        Supplier<SpotAccount> free = () -> {
-            SpotAccount account = Scenes.lively();
+        Supplier<Account> free = () -> {
+            Account account = Scenes.lively();
             account.air(2);
             return account;
         };
@@ -233,7 +233,7 @@ public final class RefusedTest {
             TWINS.refused("rate", Scenes::lively, NO_SUCH, x -> x.rate(at, 0, 100001));
             TWINS.refused("rate", Scenes::lively, NO_SUCH, x -> x.rate(at, 3, 100001));
         }
-        TWINS.refused("rate without a break", SpotAccount::new, NO_SUCH, x -> x.rate(0, 3, -1));
+        TWINS.refused("rate without a break", Account::new, NO_SUCH, x -> x.rate(0, 3, -1));
         TWINS.refused("rate, both", Scenes::lively, RANGE, x -> x.rate(7, 3, 100001));
         TWINS.refused("rate, both", Scenes::lively, RANGE, x -> x.rate(0, -1, -1));
     }
@@ -245,7 +245,7 @@ public final class RefusedTest {
                 TWINS.refused("rating", Scenes::lively, NO_SUCH, x -> x.rating(at, group));
             }
         }
-        TWINS.refused("rating without a break", SpotAccount::new, NO_SUCH, x -> x.rating(0, 3));
+        TWINS.refused("rating without a break", Account::new, NO_SUCH, x -> x.rating(0, 3));
     }
 
     private static void addOrderFirst() {
@@ -284,7 +284,7 @@ public final class RefusedTest {
             TWINS.refused("place, closed", Scenes::lively, NO_SUCH, x -> x.place(1, at));
             TWINS.refused("place, open", Scenes::lively, NO_SUCH, x -> x.place(0, at));
         }
-        Supplier<SpotAccount> full = () -> Scenes.spots(150);
+        Supplier<Account> full = () -> Scenes.spots(150);
         TWINS.refused("place, full", full, NO_SUCH, x -> x.place(Scenes.FULL_OPEN_ORDER, 24));
         TWINS.refused("place, full", full, NO_SUCH, x -> x.place(9, 0));
         TWINS.refused("place, all", full, STATE, x -> x.place(Scenes.FULL_CLOSED_ORDER, 0));
@@ -300,7 +300,7 @@ public final class RefusedTest {
             TWINS.refused("give, rest left", Scenes::lively, NO_SUCH, x -> x.give(1, at));
             TWINS.refused("give, owed nothing", Scenes::lively, NO_SUCH, x -> x.give(2, at));
         }
-        Supplier<SpotAccount> full = () -> Scenes.spots(150);
+        Supplier<Account> full = () -> Scenes.spots(150);
         TWINS.refused("give, full", full, NO_SUCH, x -> x.give(Scenes.FULL_CLOSED_ORDER, 24));
         TWINS.refused("give, full", full, NO_SUCH, x -> x.give(9, 0));
         TWINS.refused("give, full, a rest of 0", full, STATE, x -> x.give(0, 0));
@@ -314,7 +314,7 @@ public final class RefusedTest {
             }
             TWINS.refused("fill, closed", Scenes::lively, RANGE, x -> x.fill(1, most));
             TWINS.refused("fill, closed", Scenes::lively, RANGE, x -> x.fill(2, most));
-            TWINS.refused("fill without an order", SpotAccount::new, NO_SUCH,
+            TWINS.refused("fill without an order", Account::new, NO_SUCH,
                     x -> x.fill(0, most));
         }
     }

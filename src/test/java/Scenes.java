@@ -14,8 +14,8 @@ final class Scenes {
     private Scenes() {
     }
 
-    static SpotAccount breaks(int count, int seconds) {
-        SpotAccount account = new SpotAccount();
+    static Account breaks(int count, int seconds) {
+        Account account = new Account();
         for (int at = 0; at < count; at++) {
             account.addBreak(seconds);
         }
@@ -23,8 +23,8 @@ final class Scenes {
     }
 
     /** Breaks that are rated the same for group 0, and 0 for the others. */
-    static SpotAccount rated(int count, int seconds, int rating) {
-        SpotAccount account = breaks(count, seconds);
+    static Account rated(int count, int seconds, int rating) {
+        Account account = breaks(count, seconds);
         for (int at = 0; at < count; at++) {
             account.rate(at, 0, rating);
         }
@@ -32,12 +32,12 @@ final class Scenes {
     }
 
     /** An order of group 0, 30 seconds, price 100, floor 0. */
-    static int order(SpotAccount account, int advertiser, int category, int promise) {
+    static int order(Account account, int advertiser, int category, int promise) {
         return account.addOrder(advertiser, category, 0, 30, 100, promise, 0);
     }
 
-    static SpotAccount orders(int count) {
-        SpotAccount account = new SpotAccount();
+    static Account orders(int count) {
+        Account account = new Account();
         for (int order = 0; order < count; order++) {
             order(account, order % 10, order % 8, order);
         }
@@ -45,8 +45,8 @@ final class Scenes {
     }
 
     /** An account of 24 breaks with so many spots, all planned; a break rates its number and 1. */
-    static SpotAccount spots(int count) {
-        SpotAccount account = breaks(MOST_BREAKS, 600);
+    static Account spots(int count) {
+        Account account = breaks(MOST_BREAKS, 600);
         for (int at = 0; at < MOST_BREAKS; at++) {
             account.rate(at, 0, at + 1);
         }
@@ -67,8 +67,8 @@ final class Scenes {
      * an order 1 that is closed and has a rest of 20, with an aired, a dropped and a planned free
      * spot, 4 to 6; an order 2 that is closed and owed nothing; an open order 3, a rival of 0.
      */
-    static SpotAccount lively() {
-        SpotAccount account = breaks(8, 60);
+    static Account lively() {
+        Account account = breaks(8, 60);
         for (int at = 0; at < 8; at++) {
             account.rate(at, 0, 10 + at);
             account.rate(at, 1, 30);

@@ -15,9 +15,11 @@ public final class TermsTest {
         oneAnother();
         openOrAired();
         revisedAtAnyTime();
+        openOrClosed();
         rivals();
         rivalsNextToIt();
         plannedAtFirst();
+        whatCanBecomeOfSpots();
         roomOfBreak();
         eachSetOfReasons();
         roomJustEnough();
@@ -60,7 +62,7 @@ public final class TermsTest {
     private static void oneAnother() {
         CHECK.begin("Terms: they follow one another in this order [all pairs of 24 breaks]");
         for (int rival = 0; rival < 24; rival++) {
-            SpotAccount account = Scenes.breaks(24, 60);
+            Account account = Scenes.breaks(24, 60);
             Scenes.order(account, 0, 0, 500);
             Scenes.order(account, 1, 0, 500);
             account.place(1, rival);
@@ -70,7 +72,7 @@ public final class TermsTest {
                 CHECK.due("whyNot(0, " + at + "), rival in " + rival, account.whyNot(0, at), due);
             }
         }
-        SpotAccount later = Scenes.breaks(1, 60);
+        Account later = Scenes.breaks(1, 60);
         Scenes.order(later, 0, 0, 500);
         Scenes.order(later, 1, 0, 500);
         later.place(1, 0);
@@ -81,7 +83,7 @@ public final class TermsTest {
     private static void openOrAired() {
         CHECK.begin("Terms: it is open, or aired [open at first; one is aired, the others not]");
         for (int aired = 0; aired < 24; aired++) {
-            SpotAccount account = Scenes.breaks(24, 60);
+            Account account = Scenes.breaks(24, 60);
             CHECK.due("isAired", account.isAired(aired), false);
             CHECK.due("air, without spots", account.air(aired), 0);
             for (int at = 0; at < 24; at++) {
@@ -92,7 +94,7 @@ public final class TermsTest {
 
     private static void revisedAtAnyTime() {
         CHECK.begin("Terms: Ratings can be revised at any time, also of a break that is aired.");
-        SpotAccount account = Scenes.lively();
+        Account account = Scenes.lively();
         CHECK.due("rate of an aired break", account.rate(0, 0, 100000), 10);
         CHECK.due("rate of an aired break", account.rate(0, 0, 0), 100000);
         CHECK.due("rating", account.rating(0, 0), 0);
@@ -103,6 +105,36 @@ public final class TermsTest {
     }
 
     // ---- orders and rivals
+
+    private static void openOrClosed() {
+        CHECK.begin("Terms: It is open or closed, open at first [one is closed, the others not]");
+        for (int closed = 0; closed < 20; closed++) {
+            Account account = Scenes.orders(20);
+            account.addBreak(600);
+            CHECK.due("close", account.close(closed), closed);
+            for (int order = 0; order < 20; order++) {
+                CHECK.due("owed", account.owed(order), order == closed ? closed : 0);
+                String due = order == closed ? "IllegalStateException" : "" + account.spots();
+                int placed = order;
+                String got = Check.answer(() -> account.place(placed, 0));
+                CHECK.due("place(" + order + ", 0)", got, due);
+                dropLast(account);
+            }
+            CHECK.due("breaks and what is aired do not close it", account.air(0), 0);
+            for (int order = 0; order < 20; order++) {
+                int asked = order;
+                String due = order == closed ? "IllegalStateException" : "" + order;
+                CHECK.due("close", Check.answer(() -> account.close(asked)), due);
+            }
+        }
+    }
+
+    private static void dropLast(Account account) {
+        int last = account.spots() - 1;
+        if (last >= 0 && account.stateOf(last) == SpotAccount.PLANNED) {
+            account.drop(last);
+        }
+    }
 
     private static void rivals() {
         CHECK.begin("Terms: rivals if they have the same category and other advertisers");
@@ -115,7 +147,7 @@ public final class TermsTest {
     }
 
     private static void rivalPair(int advertiser, int category, int other, int otherCategory) {
-        SpotAccount account = Scenes.breaks(3, 60);
+        Account account = Scenes.breaks(3, 60);
         Scenes.order(account, advertiser, category, 500);
         Scenes.order(account, other, otherCategory, 500);
         account.place(0, 1);
@@ -131,7 +163,7 @@ public final class TermsTest {
         CHECK.begin("Terms: (the one before it or the one behind it) [either, both, the ends]");
         int[][] rivalsAt = {{1}, {3}, {1, 3}, {0}, {4}, {0, 4}};
         for (int[] places : rivalsAt) {
-            SpotAccount account = Scenes.breaks(5, 60);
+            Account account = Scenes.breaks(5, 60);
             Scenes.order(account, 0, 0, 500);
             Scenes.order(account, 1, 0, 500);
             for (int at : places) {
@@ -140,10 +172,10 @@ public final class TermsTest {
             int due = places[0] == 1 || places[0] == 3 ? 6 : 0;
             CHECK.due("whyNot(0, 2)", account.whyNot(0, 2), due);
         }
-        SpotAccount one = Scenes.breaks(1, 60);
+        Account one = Scenes.breaks(1, 60);
         Scenes.order(one, 0, 0, 500);
         CHECK.due("whyNot, the only break", one.whyNot(0, 0), 0);
-        SpotAccount ends = Scenes.breaks(24, 60);
+        Account ends = Scenes.breaks(24, 60);
         Scenes.order(ends, 0, 0, 500);
         Scenes.order(ends, 1, 0, 500);
         ends.place(1, 0);
@@ -156,7 +188,7 @@ public final class TermsTest {
 
     private static void plannedAtFirst() {
         CHECK.begin("Terms: It is PLANNED at first");
-        SpotAccount account = Scenes.breaks(3, 60);
+        Account account = Scenes.breaks(3, 60);
         Scenes.order(account, 0, 0, 500);
         CHECK.due("place", account.place(0, 2), 0);
         CHECK.due("fill", account.fill(0, 1), 1);
@@ -169,9 +201,42 @@ public final class TermsTest {
         CHECK.due("breakOf(1)", account.breakOf(1), 0);
     }
 
+    private static void whatCanBecomeOfSpots() {
+        CHECK.begin("Terms: and can become AIRED, MISSED or DROPPED [from each state, by each call]");
+        int[][] due = {
+            // after air, miss, drop and close of one that is PLANNED, AIRED, MISSED, DROPPED
+            {SpotAccount.AIRED, SpotAccount.MISSED, SpotAccount.DROPPED, SpotAccount.DROPPED},
+            {SpotAccount.AIRED, SpotAccount.MISSED, SpotAccount.AIRED, SpotAccount.AIRED},
+            {SpotAccount.MISSED, SpotAccount.MISSED, SpotAccount.MISSED, SpotAccount.MISSED},
+            {SpotAccount.DROPPED, SpotAccount.DROPPED, SpotAccount.DROPPED, SpotAccount.DROPPED},
+        };
+        for (int state = 0; state < 4; state++) {
+            for (int call = 0; call < 4; call++) {
+                Account account = neighbour(state);
+                become(account, call);
+                String what = "stateOf(0), " + state + " before, after call " + call;
+                CHECK.due(what, account.stateOf(0), due[state][call]);
+                CHECK.due("breakOf(0)", account.breakOf(0), 2);
+                CHECK.due("spots()", account.spots(), 1);
+            }
+        }
+    }
+
+    private static void become(Account account, int call) {
+        Check.answer(() -> switch (call) {
+            case 0 -> account.air(2);
+            case 1 -> account.miss(0) ? 1 : 0;
+            case 2 -> {
+                account.drop(0);
+                yield 0;
+            }
+            default -> account.close(0);
+        });
+    }
+
     private static void roomOfBreak() {
         CHECK.begin("Terms: its length less the seconds of all its spots .. planned or aired");
-        SpotAccount account = Scenes.breaks(2, 480);
+        Account account = Scenes.breaks(2, 480);
         for (int order = 0; order < 8; order++) {
             account.addOrder(order, order, 0, 60, 1, 500, 0);
             account.place(order, 0);
@@ -198,11 +263,11 @@ public final class TermsTest {
      * Six breaks, of which 2 has just the reasons of the set against order 0, the rivals of reason
      * 6 in the breaks given. A spot of order 0 stands in break 5, where it could not go any more.
      */
-    private static SpotAccount withReasons(int set, int[] rivalsNextToIt) {
+    private static Account withReasons(int set, int[] rivalsNextToIt) {
         boolean advertiser = has(set, 4);
         boolean rival = has(set, 5);
         int used = (advertiser ? 15 : 0) + (rival ? 15 : 0);
-        SpotAccount account = new SpotAccount();
+        Account account = new Account();
         for (int at = 0; at < 6; at++) {
             account.addBreak(at != 2 ? 600 : 60 + used - (has(set, 2) ? 1 : 0));
         }
@@ -257,9 +322,9 @@ public final class TermsTest {
 
     private static void reasonsTold(int set, int[] rivals) {
         int due = firstOf(set);
-        Supplier<SpotAccount> scene = () -> withReasons(set, rivals);
-        Supplier<SpotAccount> closed = () -> {
-            SpotAccount account = withReasons(set, rivals);
+        Supplier<Account> scene = () -> withReasons(set, rivals);
+        Supplier<Account> closed = () -> {
+            Account account = withReasons(set, rivals);
             account.close(0);
             return account;
         };
@@ -280,7 +345,7 @@ public final class TermsTest {
         CHECK.begin("Terms: 2. its room is less than the seconds of the order");
         for (int seconds : new int[] {15, 30, 60}) {
             for (int length = 15; length <= 75; length++) {
-                SpotAccount account = Scenes.breaks(1, length);
+                Account account = Scenes.breaks(1, length);
                 account.addOrder(0, 0, 0, seconds, 1, 500, 0);
                 CHECK.due("whyNot", account.whyNot(0, 0), length < seconds ? 2 : 0);
             }
@@ -291,7 +356,7 @@ public final class TermsTest {
         CHECK.begin("Terms: planned or aired, of whichever order [neither missed nor dropped]");
         for (int state = 0; state < 4; state++) {
             boolean counts = state == SpotAccount.PLANNED || state == SpotAccount.AIRED;
-            SpotAccount account = neighbour(state);
+            Account account = neighbour(state);
             CHECK.due("stateOf(0)", account.stateOf(0), state);
             CHECK.due("whyNot, a rival next to it", account.whyNot(1, 1), counts ? 6 : 0);
             CHECK.due("whyNot, a rival next to it", account.whyNot(1, 3), counts ? 6 : 0);
@@ -302,13 +367,13 @@ public final class TermsTest {
                 CHECK.due("room(2)", account.room(2), counts ? 30 : 60);
             }
         }
-        SpotAccount missed = neighbour(SpotAccount.AIRED);
+        Account missed = neighbour(SpotAccount.AIRED);
         missed.miss(0);
         CHECK.due("whyNot, one that was aired and is missed", missed.whyNot(1, 1), 0);
-        SpotAccount closed = neighbour(SpotAccount.AIRED);
+        Account closed = neighbour(SpotAccount.AIRED);
         closed.close(0);
         CHECK.due("whyNot, an aired one of a closed order", closed.whyNot(1, 1), 6);
-        SpotAccount dropped = neighbour(SpotAccount.PLANNED);
+        Account dropped = neighbour(SpotAccount.PLANNED);
         dropped.close(0);
         CHECK.due("whyNot, a planned one of a closed order", dropped.whyNot(1, 1), 0);
         dropped.give(0, 2);
@@ -318,8 +383,8 @@ public final class TermsTest {
     }
 
     /** A spot of such a state in break 2, of order 0; 1 is a rival; 2 has the same advertiser. */
-    private static SpotAccount neighbour(int state) {
-        SpotAccount account = Scenes.breaks(5, 60);
+    private static Account neighbour(int state) {
+        Account account = Scenes.breaks(5, 60);
         Scenes.order(account, 0, 0, 500);
         Scenes.order(account, 1, 0, 500);
         Scenes.order(account, 0, 3, 500);
@@ -340,7 +405,7 @@ public final class TermsTest {
 
     private static void movedSpotDoesNotCount() {
         CHECK.begin("Terms: When a spot is moved, it itself does not count in this.");
-        SpotAccount account = Scenes.breaks(24, 60);
+        Account account = Scenes.breaks(24, 60);
         account.addOrder(0, 0, 0, 60, 1, 500, 0);
         account.place(0, 0);
         for (int at = 1; at < 24; at++) {
@@ -354,8 +419,8 @@ public final class TermsTest {
         CHECK.due("move from the first to the last", account.move(0, 23), 0);
         CHECK.due("breakOf(0)", account.breakOf(0), 23);
         CHECK.due("stateOf(0)", account.stateOf(0), SpotAccount.PLANNED);
-        Supplier<SpotAccount> two = () -> {
-            SpotAccount other = Scenes.breaks(2, 60);
+        Supplier<Account> two = () -> {
+            Account other = Scenes.breaks(2, 60);
             Scenes.order(other, 0, 0, 500);
             other.place(0, 0);
             other.place(0, 1);
@@ -367,7 +432,7 @@ public final class TermsTest {
 
     private static void moveWhereItIs() {
         CHECK.begin("Promise 16: or leaves it where it is, which is always possible");
-        SpotAccount account = Scenes.rated(2, 60, 40);
+        Account account = Scenes.rated(2, 60, 40);
         account.addOrder(0, 0, 0, 60, 1, 500, 40);
         account.place(0, 0);
         CHECK.due("move, no room besides", account.move(0, 0), 0);
@@ -383,8 +448,8 @@ public final class TermsTest {
         CHECK.due("the last of 150 spots", Scenes.spots(150).move(149, 18), 18);
     }
 
-    private static SpotAccount movedAway() {
-        SpotAccount account = Scenes.rated(2, 60, 40);
+    private static Account movedAway() {
+        Account account = Scenes.rated(2, 60, 40);
         account.addOrder(0, 0, 0, 60, 1, 500, 40);
         account.place(0, 0);
         account.rate(0, 0, 39);
@@ -394,7 +459,7 @@ public final class TermsTest {
 
     private static void whatIsThereStays() {
         CHECK.begin("Terms: What is there already stays, whatever ratings are revised to.");
-        SpotAccount account = Scenes.rated(2, 60, 40);
+        Account account = Scenes.rated(2, 60, 40);
         account.addOrder(0, 0, 0, 30, 100, 500, 40);
         account.place(0, 0);
         account.place(0, 1);
@@ -416,7 +481,7 @@ public final class TermsTest {
 
     private static void deliveredAsItIsNow() {
         CHECK.begin("Terms: the rating of its break for the group of its order, as it is now");
-        SpotAccount account = Scenes.breaks(2, 60);
+        Account account = Scenes.breaks(2, 60);
         account.addOrder(0, 0, 2, 30, 100, 500, 0);
         account.place(0, 1);
         account.rate(1, 2, 7);
@@ -438,7 +503,7 @@ public final class TermsTest {
 
     private static void deliveredPaidAndFree() {
         CHECK.begin("Terms: An order has delivered what all its aired spots have, paid and free.");
-        SpotAccount account = Scenes.rated(3, 60, 40);
+        Account account = Scenes.rated(3, 60, 40);
         Scenes.order(account, 0, 0, 100);
         account.place(0, 0);
         account.air(0);
@@ -458,7 +523,7 @@ public final class TermsTest {
         int[] ratings = {0, 1, 99, 100, 101, 100000};
         int[] due = {100, 99, 1, 0, 0, 0};
         for (int number = 0; number < ratings.length; number++) {
-            SpotAccount account = Scenes.rated(1, 60, ratings[number]);
+            Account account = Scenes.rated(1, 60, ratings[number]);
             Scenes.order(account, 0, 0, 100);
             account.place(0, 0);
             account.air(0);
@@ -470,7 +535,7 @@ public final class TermsTest {
             CHECK.due("rest(0), closed", account.rest(0), due[number]);
             CHECK.due("mostOwed(), closed", account.mostOwed(), due[number] > 0 ? 0 : -1);
         }
-        SpotAccount revised = Scenes.rated(1, 60, 100);
+        Account revised = Scenes.rated(1, 60, 100);
         Scenes.order(revised, 0, 0, 100);
         revised.place(0, 0);
         revised.air(0);
@@ -483,7 +548,7 @@ public final class TermsTest {
 
     private static void restNotBelowZero() {
         CHECK.begin("Terms: its planned free spots for its group, but not below 0");
-        SpotAccount account = Scenes.rated(3, 60, 40);
+        Account account = Scenes.rated(3, 60, 40);
         Scenes.order(account, 0, 0, 100);
         account.close(0);
         account.give(0, 0);
@@ -513,7 +578,7 @@ public final class TermsTest {
 
     private static void airPlannedSpots() {
         CHECK.begin("Promise 4: its planned spots are aired. Returns how many .. by that");
-        SpotAccount account = Scenes.breaks(2, 480);
+        Account account = Scenes.breaks(2, 480);
         for (int order = 0; order < 8; order++) {
             account.addOrder(order, order, 0, 60, 1, 500, 0);
             account.place(order, 1);
@@ -532,7 +597,7 @@ public final class TermsTest {
 
     private static void closeDropsPlannedSpots() {
         CHECK.begin("Promise 10: its planned spots are dropped [its aired, missed ones stay]");
-        SpotAccount account = Scenes.rated(24, 60, 1);
+        Account account = Scenes.rated(24, 60, 1);
         Scenes.order(account, 0, 0, 1000);
         Scenes.order(account, 1, 1, 1000);
         account.fill(0, 24);
@@ -557,15 +622,15 @@ public final class TermsTest {
 
     private static void closedGetsNoPaidSpots() {
         CHECK.begin("Promise 10: no paid ones are placed any more [but free ones are]");
-        Supplier<SpotAccount> scene = () -> {
-            SpotAccount account = Scenes.rated(2, 60, 40);
+        Supplier<Account> scene = () -> {
+            Account account = Scenes.rated(2, 60, 40);
             Scenes.order(account, 0, 0, 100);
             account.close(0);
             return account;
         };
         TWINS.refused("place", scene, STATE, x -> x.place(0, 0));
         TWINS.refused("fill", scene, STATE, x -> x.fill(0, 1));
-        SpotAccount account = scene.get();
+        Account account = scene.get();
         CHECK.due("give", account.give(0, 0), 0);
         account.air(0);
         CHECK.due("bill(0)", account.bill(0), 0);
@@ -574,7 +639,7 @@ public final class TermsTest {
 
     private static void whyNotOfClosedAndFull() {
         CHECK.begin("Promise 12: Returns the reason, 1 to 6; 0 if it can [the six, no other]");
-        SpotAccount account = Scenes.spots(150);
+        Account account = Scenes.spots(150);
         CHECK.due("150 spots", account.whyNot(Scenes.FULL_OPEN_ORDER, 23), 0);
         CHECK.due("150 spots, closed", account.whyNot(Scenes.FULL_CLOSED_ORDER, 0), 0);
         CHECK.due("closed, owed nothing", Scenes.lively().whyNot(2, 1), 0);
@@ -585,8 +650,8 @@ public final class TermsTest {
     private static void giveDownToZero() {
         CHECK.begin("Promise 14: Throws IllegalStateException if the rest of the order is 0");
         for (int promise : new int[] {1, 2, 3}) {
-            Supplier<SpotAccount> scene = () -> {
-                SpotAccount account = Scenes.rated(4, 60, 1);
+            Supplier<Account> scene = () -> {
+                Account account = Scenes.rated(4, 60, 1);
                 Scenes.order(account, 0, 0, promise);
                 account.close(0);
                 for (int at = 0; at < promise; at++) {
@@ -597,14 +662,14 @@ public final class TermsTest {
             CHECK.due("rest(0)", scene.get().rest(0), 0);
             TWINS.refused("one more", scene, STATE, x -> x.give(0, 3));
         }
-        Supplier<SpotAccount> nothing = () -> {
-            SpotAccount account = Scenes.rated(1, 60, 1);
+        Supplier<Account> nothing = () -> {
+            Account account = Scenes.rated(1, 60, 1);
             Scenes.order(account, 0, 0, 0);
             account.close(0);
             return account;
         };
         TWINS.refused("nothing promised", nothing, STATE, x -> x.give(0, 0));
-        SpotAccount zero = Scenes.rated(2, 60, 0);
+        Account zero = Scenes.rated(2, 60, 0);
         Scenes.order(zero, 0, 0, 1);
         zero.close(0);
         CHECK.due("give, rated 0", zero.give(0, 0), 0);
@@ -614,7 +679,7 @@ public final class TermsTest {
     private static void fillGreatestOfSeveral() {
         CHECK.begin("Promise 15: the greatest .., of several the first one");
         for (int first = 0; first < 24; first++) {
-            SpotAccount account = Scenes.rated(24, 60, 99999);
+            Account account = Scenes.rated(24, 60, 99999);
             for (int at = first; at < 24; at += 5) {
                 account.rate(at, 0, 100000);
             }
@@ -623,7 +688,7 @@ public final class TermsTest {
             CHECK.due("fill(0, 1)", account.fill(0, 1), 1);
             CHECK.due("breakOf(0)", account.breakOf(0), first);
         }
-        SpotAccount account = Scenes.rated(6, 60, 10);
+        Account account = Scenes.rated(6, 60, 10);
         account.rate(1, 0, 30);
         account.rate(3, 0, 20);
         account.rate(4, 0, 30);
@@ -638,13 +703,13 @@ public final class TermsTest {
 
     private static void fillRatedZero() {
         CHECK.begin("Promise 15: (also if that is 0)");
-        SpotAccount account = Scenes.breaks(24, 60);
+        Account account = Scenes.breaks(24, 60);
         Scenes.order(account, 0, 0, 1);
         CHECK.due("fill(0, 24)", account.fill(0, 24), 24);
         for (int spot = 0; spot < 24; spot++) {
             CHECK.due("breakOf", account.breakOf(spot), spot);
         }
-        SpotAccount mixed = Scenes.breaks(3, 60);
+        Account mixed = Scenes.breaks(3, 60);
         mixed.rate(2, 0, 1);
         Scenes.order(mixed, 0, 0, 5);
         CHECK.due("fill(0, 2)", mixed.fill(0, 2), 2);
@@ -657,7 +722,7 @@ public final class TermsTest {
         int[] promises = {0, 1, 39, 40, 41, 79, 80, 81, 119, 120, 121, 1000000};
         int[] due = {0, 1, 1, 1, 2, 2, 2, 3, 3, 3, 4, 5};
         for (int number = 0; number < promises.length; number++) {
-            SpotAccount account = Scenes.rated(5, 60, 40);
+            Account account = Scenes.rated(5, 60, 40);
             Scenes.order(account, 0, 0, promises[number]);
             CHECK.due("fill, promise " + promises[number], account.fill(0, 24), due[number]);
         }
@@ -666,19 +731,19 @@ public final class TermsTest {
                 fillWithSomeThere(aired, gone == 0);
             }
         }
-        SpotAccount two = Scenes.rated(5, 60, 40);
+        Account two = Scenes.rated(5, 60, 40);
         Scenes.order(two, 0, 0, 80);
         Scenes.order(two, 1, 1, 80);
         two.fill(1, 24);
         CHECK.due("another order's spots do not count", two.fill(0, 24), 2);
-        SpotAccount groups = Scenes.rated(5, 60, 40);
+        Account groups = Scenes.rated(5, 60, 40);
         groups.addOrder(0, 0, 2, 30, 1, 80, 0);
         CHECK.due("another group's ratings do not count", groups.fill(0, 24), 5);
     }
 
     /** Three spots of 40 are there, some aired and one missed or dropped; 120 are promised. */
     private static void fillWithSomeThere(int aired, boolean missed) {
-        SpotAccount account = Scenes.rated(6, 60, 40);
+        Account account = Scenes.rated(6, 60, 40);
         Scenes.order(account, 0, 0, 120);
         CHECK.due("fill(0, 3)", account.fill(0, 3), 3);
         CHECK.due("enough", account.fill(0, 24), 0);
@@ -700,22 +765,22 @@ public final class TermsTest {
 
     private static void fillNoSuchBreak() {
         CHECK.begin("Promise 15: as long as .. there is such a break");
-        SpotAccount aired = Scenes.rated(2, 60, 40);
+        Account aired = Scenes.rated(2, 60, 40);
         Scenes.order(aired, 0, 0, 500);
         aired.air(0);
         aired.air(1);
         CHECK.due("all are aired", aired.fill(0, 24), 0);
-        SpotAccount tooShort = Scenes.rated(3, 29, 40);
+        Account tooShort = Scenes.rated(3, 29, 40);
         Scenes.order(tooShort, 0, 0, 500);
         CHECK.due("all are too short", tooShort.fill(0, 24), 0);
-        SpotAccount low = Scenes.rated(3, 60, 40);
+        Account low = Scenes.rated(3, 60, 40);
         low.addOrder(0, 0, 0, 30, 1, 500, 41);
         CHECK.due("all are below the floor", low.fill(0, 24), 0);
-        SpotAccount own = Scenes.rated(3, 60, 40);
+        Account own = Scenes.rated(3, 60, 40);
         Scenes.order(own, 0, 0, 500);
         CHECK.due("fill", own.fill(0, 24), 3);
         CHECK.due("its advertiser is in all", own.fill(0, 24), 0);
-        SpotAccount rival = Scenes.rated(3, 60, 40);
+        Account rival = Scenes.rated(3, 60, 40);
         Scenes.order(rival, 0, 0, 500);
         Scenes.order(rival, 1, 0, 500);
         rival.place(1, 1);
@@ -725,7 +790,7 @@ public final class TermsTest {
 
     private static void fillPlacesPaidSpots() {
         CHECK.begin("Promise 15: Places paid spots of an order");
-        SpotAccount account = Scenes.rated(3, 60, 40);
+        Account account = Scenes.rated(3, 60, 40);
         Scenes.order(account, 0, 0, 500);
         CHECK.due("fill(0, 24)", account.fill(0, 24), 3);
         account.air(0);
@@ -735,7 +800,7 @@ public final class TermsTest {
 
     private static void missOfEither() {
         CHECK.begin("Promise 17: A planned or aired spot .. Returns true if it was aired before.");
-        SpotAccount account = Scenes.lively();
+        Account account = Scenes.lively();
         CHECK.due("miss of an aired paid one", account.miss(0), true);
         CHECK.due("miss of a planned paid one", account.miss(1), false);
         CHECK.due("miss of an aired one of a closed order", account.miss(4), true);
@@ -755,7 +820,7 @@ public final class TermsTest {
 
     private static void billOfPaidAired() {
         CHECK.begin("Promise 25: its price for each of its paid spots that is aired");
-        SpotAccount account = Scenes.rated(5, 60, 10);
+        Account account = Scenes.rated(5, 60, 10);
         account.addOrder(0, 0, 0, 15, 7, 100, 0);
         for (int at = 0; at < 5; at++) {
             account.place(0, at);
@@ -776,7 +841,7 @@ public final class TermsTest {
 
     private static void billToAll() {
         CHECK.begin("Promise 26: the bills of all orders of an advertiser, together");
-        SpotAccount account = Scenes.breaks(20, 60);
+        Account account = Scenes.breaks(20, 60);
         int due = 0;
         for (int order = 0; order < 20; order++) {
             account.addOrder(9, order % 8, 0, 15, 1 << order % 19, 100, 0);
@@ -797,7 +862,7 @@ public final class TermsTest {
     private static void mostOwedOfSeveral() {
         CHECK.begin("Promise 27: the greatest rest; of several the lowest; NONE if .. above 0");
         for (int most = 0; most < 20; most++) {
-            SpotAccount account = new SpotAccount();
+            Account account = new Account();
             for (int order = 0; order < 20; order++) {
                 Scenes.order(account, 0, 0, order == most || order == 19 ? 8 : 7);
             }
@@ -807,7 +872,7 @@ public final class TermsTest {
             }
             CHECK.due("mostOwed()", account.mostOwed(), most);
         }
-        SpotAccount same = Scenes.rated(2, 600, 5);
+        Account same = Scenes.rated(2, 600, 5);
         for (int order = 0; order < 4; order++) {
             Scenes.order(same, order, order, 5);
             same.close(order);

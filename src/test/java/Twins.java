@@ -7,7 +7,7 @@ import java.util.function.Supplier;
  * of a new pair, so that no object is used for more than 512 calls.
  */
 final class Twins {
-    private static final int PARTS = 6;
+    private static final int PARTS = 7;
 
     private final Check check;
 
@@ -17,11 +17,11 @@ final class Twins {
 
     void refused(
             String what,
-            Supplier<SpotAccount> scene,
+            Supplier<Account> scene,
             Class<? extends Exception> want,
-            Consumer<SpotAccount> call) {
+            Consumer<Account> call) {
         for (int part = 0; part < PARTS; part++) {
-            SpotAccount refusing = scene.get();
+            Account refusing = scene.get();
             String thrown = Check.thrownBy(() -> call.accept(refusing));
             check.due(what + " throws", thrown, want.getSimpleName());
             check.due(
@@ -31,22 +31,24 @@ final class Twins {
         }
     }
 
-    private static String part(SpotAccount account, int part) {
+    private static String part(Account account, int part) {
         StringBuilder text = new StringBuilder();
         switch (part) {
             case 0 -> breaks(account, text);
             case 1 -> sums(account, text);
             case 2 -> reasons(account, 0, text);
             case 3 -> reasons(account, 1, text);
-            case 4 -> spots(account, text);
+            case 4 -> spots(account, 0, text);
+            case 5 -> spots(account, 1, text);
             default -> future(account, text);
         }
         return text.toString();
     }
 
-    private static void breaks(SpotAccount account, StringBuilder text) {
-        text.append(account.breaks()).append(" breaks");
-        for (int at = 0; at < account.breaks(); at++) {
+    private static void breaks(Account account, StringBuilder text) {
+        int breaks = account.breaks();
+        text.append(breaks).append(" breaks");
+        for (int at = 0; at < breaks; at++) {
             text.append(account.isAired(at) ? "; aired " : "; open ").append(account.room(at));
             for (int group = 0; group < 3; group++) {
                 text.append(' ').append(account.rating(at, group));
@@ -54,9 +56,10 @@ final class Twins {
         }
     }
 
-    private static void sums(SpotAccount account, StringBuilder text) {
-        text.append(account.orders()).append(" orders");
-        for (int order = 0; order < account.orders(); order++) {
+    private static void sums(Account account, StringBuilder text) {
+        int orders = account.orders();
+        text.append(orders).append(" orders");
+        for (int order = 0; order < orders; order++) {
             text.append("; delivered ").append(account.delivered(order));
             text.append(" owed ").append(account.owed(order));
             text.append(" rest ").append(account.rest(order));
@@ -68,10 +71,11 @@ final class Twins {
         text.append("; most owed ").append(account.mostOwed());
     }
 
-    /** Of every second order only: those of all would be too many calls. */
-    private static void reasons(SpotAccount account, int first, StringBuilder text) {
+    /** Of every second order only, as of the spots: those of all would be too many calls. */
+    private static void reasons(Account account, int first, StringBuilder text) {
         int breaks = account.breaks();
-        for (int order = first; order < account.orders(); order += 2) {
+        int orders = account.orders();
+        for (int order = first; order < orders; order += 2) {
             text.append("; order ").append(order);
             for (int at = 0; at < breaks; at++) {
                 text.append(' ').append(account.whyNot(order, at));
@@ -79,17 +83,17 @@ final class Twins {
         }
     }
 
-    private static void spots(SpotAccount account, StringBuilder text) {
+    private static void spots(Account account, int first, StringBuilder text) {
         int count = account.spots();
         text.append(count).append(" spots");
-        for (int spot = 0; spot < count; spot++) {
+        for (int spot = first; spot < count; spot += 2) {
             text.append("; ").append(account.stateOf(spot));
             text.append(" in ").append(account.breakOf(spot));
         }
     }
 
     /** What becomes of the account: that shows what no call tells now, as which spots are free. */
-    private static void future(SpotAccount account, StringBuilder text) {
+    private static void future(Account account, StringBuilder text) {
         int breaks = account.breaks();
         int orders = account.orders();
         for (int order = 0; order < orders; order++) {
